@@ -158,28 +158,44 @@ public final class MarbleGates {
     /** Answers false, and changes nothing, if the order's own method would throw. */
     private boolean obey(int order) {
         int number = text.numberOf(order);
-        switch (text.kindOf(order)) {
-            case 'g':
-                return run.gates.hasRoom() && run.gates.build(number) >= 0;
-            case 'e':
-                return obeyLead(number, text.exitOf(order), text.targetOf(order));
-            case 'd':
-                return run.mayAwait(number) && run.await(number) > 0;
-            case 't':
-                return run.passBeats(number) >= 0;
-            case 'f':
-                return run.gates.exists(number) && run.gates.turnByHand(number) >= 0;
-            default:
-                return false;
-        }
-    }
-
-    private boolean obeyLead(int gate, int exit, int target) {
-        if (!run.gates.hasExit(gate, exit) || !run.gates.hasTarget(target) || target <= gate) {
+        if (!mayObey(order, number)) {
             return false;
         }
-        run.gates.connect(gate, exit, target);
+        switch (text.kindOf(order)) {
+            case 'g':
+                run.gates.build(number);
+                break;
+            case 'e':
+                run.gates.connect(number, text.exitOf(order), text.targetOf(order));
+                break;
+            case 'd':
+                run.await(number);
+                break;
+            case 't':
+                run.passBeats(number);
+                break;
+            default:
+                run.gates.turnByHand(number);
+                break;
+        }
         return true;
+    }
+
+    /** The text's own rules leave only these reasons for which a method would throw. */
+    private boolean mayObey(int order, int number) {
+        switch (text.kindOf(order)) {
+            case 'g':
+                return run.gates.hasRoom();
+            case 'e':
+                int target = text.targetOf(order);
+                return run.gates.exists(number) && run.gates.hasTarget(target) && target > number;
+            case 'd':
+                return run.mayAwait(number);
+            case 't':
+                return true;
+            default:
+                return run.gates.exists(number);
+        }
     }
 
     // ---- undo and snapshots

@@ -12,9 +12,6 @@ public final class UndoTest {
 
     private static void sixStatesAreSaved() {
         MarbleGates x = Checks.gates(0);
-        Checks.refused(x, "nothing", ArithmeticException.class, () -> {
-            throw new ArithmeticException();
-        });
         for (int pitch = 1; pitch <= 9; pitch++) {
             x.tune(0, pitch);
             Checks.due("saved after " + pitch, x.count(10), Math.min(pitch + 1, 6));
