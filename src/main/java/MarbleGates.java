@@ -25,7 +25,7 @@ public final class MarbleGates {
     private static final int SAVED_LIMIT = 6;
     private static final int SLOT_COUNT = 2;
     private static final int ROLL_LIMIT = 1000;
-    // Twelve gates have 4096 ways to stand, so after so many balls each of them was met.
+    // Twelve gates have 4096 ways to stand, so by then they have stood as at first again.
     private static final int STAND_LIMIT = 4096;
 
     private final Run run = new Run();
