@@ -3,7 +3,6 @@ public final class BuildingTest {
     public static void main(String[] args) {
         aNewObject();
         gatesAreBuilt();
-        gatesAreRefused();
         exitsAreLed();
         leadsAreRefused();
         bellsAreTuned();
@@ -13,130 +12,107 @@ public final class BuildingTest {
     }
 
     private static void aNewObject() {
-        MarbleGates x = new MarbleGates();
-        int[] counts = {0, 0, 40, 0, 0, 1, 40, 0, 0, 0, 0, 0};
-        for (int what = 0; what < counts.length; what++) {
-            Checks.due("new: count(" + what + ")", x.count(what), counts[what]);
-        }
+        String sentence = "1: Creates a run without gates, with all balls in the stock.";
+        Script.holds(sentence, "count(0) = 0; count(1) = 0; count(2) = 40; count(3) = 0; count(4) = 0; count(5) = 1",
+                "count(6) = 40; count(7) = 0; count(8) = 0; count(9) = 0; count(10) = 0; count(11) = 0");
+        Script.holds(sentence, "gateOf(0, 0) ! index; ball(0, 0) = NONE; note(0, 0) = NONE; notes(0) = 0; undo() ! state",
+                "goBack(0) ! state; goBack(1) ! state; execute() ! argument; firstError() = 0; clearBuffer() = 0");
         for (int bin = 0; bin < 5; bin++) {
-            for (int what = 0; what < 3; what++) {
-                Checks.due("new: bin(" + bin + ", " + what + ")", x.bin(bin, what), 0);
-            }
+            Script.holds(sentence, "bin(" + bin + ", 0) = 0; bin(" + bin + ", 1) = 0; bin(" + bin + ", 2) = 0");
         }
-        Checks.due("new: notes(0)", x.notes(0), 0);
-        Checks.due("NONE", MarbleGates.NONE, -1);
-        Checks.refusedAsState(x, "new: undo()", () -> x.undo());
-        Checks.refusedAsState(x, "new: goBack(0)", () -> x.goBack(0));
-        Checks.refusedAsState(x, "new: goBack(1)", () -> x.goBack(1));
+        Checks.due("NONE = -1", MarbleGates.NONE, -1);
     }
 
     private static void gatesAreBuilt() {
-        MarbleGates x = new MarbleGates();
-        Checks.due("gate(0)", x.gate(0), 0);
-        Checks.due("gate(30)", x.gate(30), 1);
-        Checks.due("gates", x.count(1), 2);
-        int[] due = {0, 30, 20, 20, 0, 0, 0, 0};
-        for (int what = 0; what < due.length; what++) {
-            Checks.due("built: gateOf(1, " + what + ")", x.gateOf(1, what), due[what]);
-        }
-        Checks.due("exits to the bin 0", x.bin(0, 2), 4);
-        Checks.due("undo()", x.undo(), 1);
-        Checks.due("gates after undo", x.count(1), 1);
-        Checks.due("exits to the bin 0 after undo", x.bin(0, 2), 2);
-        Checks.due("gate(4) after undo", x.gate(4), 1);
-        Checks.due("its pitch", x.gateOf(1, 1), 4);
-    }
-
-    private static void gatesAreRefused() {
-        MarbleGates x = new MarbleGates();
-        Checks.refusedAsArgument(x, "gate(-1)", () -> x.gate(-1));
-        Checks.refusedAsArgument(x, "gate(31)", () -> x.gate(31));
-        for (int i = 0; i < 12; i++) {
-            Checks.due("gate " + i, x.gate(i), i);
-        }
-        Checks.refusedAsState(x, "gate(5) with 12 gates", () -> x.gate(5));
-        Checks.refusedAsArgument(x, "gate(31) with 12 gates", () -> x.gate(31));
-        Checks.refusedAsArgument(x, "gate(min)", () -> x.gate(Integer.MIN_VALUE));
+        Script.holds("2: Builds a gate.", "gate(7); gate(8) = 1; gateOf(1, 0) = 0; gateOf(1, 1) = 8; gateOf(1, 2) = 20",
+                "gateOf(1, 3) = 20; gateOf(1, 4) = 0; gateOf(1, 5) = 0; gateOf(1, 6) = 0; gateOf(1, 7) = 0; count(1) = 2");
+        Script.holds("2: `pitch`: 0 to 30", "gate(0) = 0; gate(30) = 1; gateOf(0, 1) = 0; gateOf(1, 1) = 30; count(1) = 2");
+        Script.holds("2: Throws `IllegalArgumentException` if pitch is out of range",
+                "gate(-1) ! argument; gate(31) ! argument; gate(min) ! argument; gate(max) ! argument; count(1) = 0");
+        Script.holds("2: Throws `IllegalStateException` if there are 12 gates",
+                "11 * gate(3); gate(4) = 11; gate(0) ! state; gate(30) ! state; undo(); gate(5) = 11; gate(5) ! state");
+        Script.holds("2: the one that its throws clause lists first is thrown",
+                "12 * gate(3); gate(-1) ! argument; gate(31) ! argument");
+        Script.isUndoable("gate(3)");
+        Script.isUndoable("11 * gate(1); drop(3); play(9)", "gate(3)");
     }
 
     private static void exitsAreLed() {
-        MarbleGates x = Checks.gates(1, 2, 3);
-        Checks.due("lead(0, 0, 1)", x.lead(0, 0, 1), 20);
-        Checks.due("lead(0, 0, 2)", x.lead(0, 0, 2), 1);
-        Checks.due("lead(0, 1, 24)", x.lead(0, 1, 24), 20);
-        Checks.due("lead(2, 1, 20)", x.lead(2, 1, 20), 20);
-        Checks.due("left target", x.gateOf(0, 2), 2);
-        Checks.due("right target", x.gateOf(0, 3), 24);
-        Checks.due("exits to the bin 0", x.bin(0, 2), 4);
-        Checks.due("exits to the bin 4", x.bin(4, 2), 1);
-        Checks.due("saved states", x.count(10), 6);
-        Checks.due("undo()", x.undo(), 5);
-        Checks.due("undo()", x.undo(), 4);
-        Checks.due("right target after undo", x.gateOf(0, 3), 20);
+        Script.holds("3: Leads an exit of a gate to a target. Returns the previous target.",
+                "3 * gate(1); lead(0, 0, 1) = 20; lead(0, 0, 2) = 1; lead(0, 0, 24) = 2; lead(0, 0, 24) = 24",
+                "lead(0, 1, 1) = 20; lead(2, 1, 22) = 20; gateOf(0, 2) = 24; gateOf(0, 3) = 1; gateOf(1, 2) = 20",
+                "gateOf(1, 3) = 20; gateOf(2, 2) = 20; gateOf(2, 3) = 22");
+        Script.holds("3: `target`: the number of a gate that is greater than gate, or 20 to 24",
+                "12 * gate(1); lead(10, 0, 11) = 20; lead(0, 1, 1) = 20; lead(0, 0, 11) = 20; lead(11, 0, 20) = 20",
+                "lead(11, 1, 24) = 20; gateOf(10, 2) = 11; gateOf(0, 3) = 1; gateOf(0, 2) = 11; gateOf(11, 3) = 24");
+        Script.isUndoable("2 * gate(1)", "lead(0, 1, 1)");
+        Script.isUndoable("2 * gate(1); lead(0, 1, 1)", "lead(0, 1, 1)");
+        Script.isUndoable("12 * gate(1); drop(3); play(9)", "lead(10, 0, 11)");
     }
 
     private static void leadsAreRefused() {
-        MarbleGates x = Checks.gates(1, 2, 3);
-        int[][] noSuch = {{3, 0, 20}, {-1, 0, 20}, {12, 0, 20}, {0, 2, 20}, {0, -1, 20}, {0, 0, 3}, {0, 0, -1},
-            {0, 0, 12}, {0, 0, 19}, {0, 0, 25}, {3, 0, 0}, {2, 2, 0}, {20, 0, 21},
-            {Integer.MIN_VALUE, 0, 1}, {0, Integer.MAX_VALUE, 1}, {0, 0, Integer.MAX_VALUE}};
-        for (int[] a : noSuch) {
-            Checks.refusedAsIndex(x, "lead(" + a[0] + ", " + a[1] + ", " + a[2] + ")", () -> x.lead(a[0], a[1], a[2]));
-        }
-        int[][] notGreater = {{0, 0, 0}, {1, 1, 1}, {1, 0, 0}, {2, 0, 1}, {2, 1, 2}};
-        for (int[] a : notGreater) {
-            Checks.refusedAsArgument(x, "lead(" + a[0] + ", " + a[1] + ", " + a[2] + ")",
-                    () -> x.lead(a[0], a[1], a[2]));
-        }
+        String noSuch = "3: Throws `IndexOutOfBoundsException` if there is no such gate, exit or target";
+        Script.holds(noSuch, "lead(0, 0, 20) ! index; lead(0, 0, 0) ! index");
+        Script.holds(noSuch + ": gate", "3 * gate(1); lead(-1, 0, 20) ! index; lead(3, 0, 20) ! index",
+                "lead(20, 0, 21) ! index; lead(min, 0, 20) ! index; lead(max, 0, 20) ! index; lead(2, 0, 20) = 20");
+        Script.holds(noSuch + ": exit", "3 * gate(1); lead(0, -1, 20) ! index; lead(0, 2, 20) ! index",
+                "lead(1, -1, 20) ! index; lead(0, min, 20) ! index; lead(0, max, 20) ! index; lead(0, 1, 20) = 20");
+        Script.holds(noSuch + ": target", "3 * gate(1); lead(0, 0, -1) ! index; lead(0, 0, 3) ! index",
+                "lead(0, 0, 11) ! index; lead(0, 0, 12) ! index; lead(0, 0, 19) ! index; lead(0, 0, 25) ! index",
+                "lead(0, 0, min) ! index; lead(0, 0, max) ! index; lead(0, 0, 2) = 20");
+        Script.holds("3: Throws `IllegalArgumentException` if target is a gate that is not greater than gate",
+                "3 * gate(1); lead(0, 0, 0) ! argument; lead(0, 1, 0) ! argument; lead(1, 0, 0) ! argument",
+                "lead(1, 1, 1) ! argument; lead(2, 0, 1) ! argument; lead(2, 1, 2) ! argument; lead(1, 1, 2) = 20");
+        Script.holds("3: the one that its throws clause lists first is thrown",
+                "3 * gate(1); lead(3, 0, 2) ! index; lead(3, 0, 0) ! index; lead(12, 0, 1) ! index; lead(1, 2, 1) ! index",
+                "lead(1, -1, 0) ! index; lead(2, 2, 0) ! index; lead(-1, 0, -1) ! index; lead(3, 0, 3) ! index");
     }
 
     private static void bellsAreTuned() {
-        MarbleGates x = Checks.gates(7);
-        Checks.due("tune(0, 30)", x.tune(0, 30), 7);
-        Checks.due("tune(0, 0)", x.tune(0, 0), 30);
-        Checks.due("pitch", x.gateOf(0, 1), 0);
-        Checks.due("saved states", x.count(10), 3);
-        Checks.refusedAsIndex(x, "tune(1, 3)", () -> x.tune(1, 3));
-        Checks.refusedAsIndex(x, "tune(1, 31)", () -> x.tune(1, 31));
-        Checks.refusedAsIndex(x, "tune(-1, 3)", () -> x.tune(-1, 3));
-        Checks.refusedAsArgument(x, "tune(0, 31)", () -> x.tune(0, 31));
-        Checks.refusedAsArgument(x, "tune(0, -1)", () -> x.tune(0, -1));
-        Checks.due("undo()", x.undo(), 2);
-        Checks.due("pitch after undo", x.gateOf(0, 1), 30);
+        Script.holds("4: Changes the pitch of a bell. Returns the previous pitch.",
+                "gate(7); gate(8); tune(1, 3) = 8; tune(1, 3) = 3; tune(0, 4) = 7; gateOf(0, 1) = 4; gateOf(1, 1) = 3");
+        Script.holds("4: `pitch`: 0 to 30", "gate(7); tune(0, 0) = 7; tune(0, 30) = 0; gateOf(0, 1) = 30");
+        Script.holds("4: Throws `IndexOutOfBoundsException` if there is no such gate",
+                "tune(0, 3) ! index; gate(7); tune(1, 3) ! index; tune(-1, 3) ! index; tune(min, 3) ! index",
+                "tune(max, 3) ! index; tune(0, 3) = 7; 11 * gate(5); tune(12, 3) ! index; tune(11, 3) = 5");
+        Script.holds("4: Throws `IllegalArgumentException` if pitch is out of range",
+                "gate(7); tune(0, -1) ! argument; tune(0, 31) ! argument; tune(0, min) ! argument",
+                "tune(0, max) ! argument; gateOf(0, 1) = 7");
+        Script.holds("4: the one that its throws clause lists first is thrown",
+                "tune(0, 31) ! index; gate(7); tune(1, 31) ! index; tune(-1, -1) ! index");
+        Script.isUndoable("gate(7)", "tune(0, 8)");
+        Script.isUndoable("gate(7)", "tune(0, 7)");
     }
 
     private static void gatesAreFlipped() {
-        MarbleGates x = Checks.gates(7, 8);
-        Checks.due("flip(1)", x.flip(1), 1);
-        Checks.due("side", x.gateOf(1, 0), 1);
-        Checks.due("the other gate's side", x.gateOf(0, 0), 0);
-        Checks.due("flip(1) again", x.flip(1), 0);
-        Checks.due("flips", x.gateOf(1, 7), 2);
-        Checks.due("no ball left", x.gateOf(1, 4) + x.gateOf(1, 5), 0);
-        Checks.due("no note", x.count(9), 0);
-        Checks.refusedAsIndex(x, "flip(2)", () -> x.flip(2));
-        Checks.refusedAsIndex(x, "flip(-1)", () -> x.flip(-1));
-        Checks.due("undo()", x.undo(), 3);
-        Checks.due("side after undo", x.gateOf(1, 0), 1);
-        Checks.due("flips after undo", x.gateOf(1, 7), 1);
+        Script.holds("5: Makes a gate stand to the other side. Returns the side to which it stands then, 0 or 1.",
+                "2 * gate(7); flip(1) = 1; gateOf(1, 0) = 1; gateOf(0, 0) = 0; flip(1) = 0; gateOf(1, 0) = 0; flip(1) = 1",
+                "gateOf(1, 7) = 3; gateOf(0, 7) = 0; flip(0) = 1; gateOf(0, 7) = 1");
+        Script.holds("5: (no ball passes it)",
+                "gate(7); drop(1); play(1); flip(0) = 1; ball(0, 0) = 0; ball(0, 2) = 0; count(3) = 1; count(9) = 0",
+                "gateOf(0, 4) = 0; gateOf(0, 5) = 0; count(0) = 1; play(1); gateOf(0, 4) = 0; gateOf(0, 5) = 1");
+        Script.holds("5: Throws `IndexOutOfBoundsException` if there is no such gate",
+                "flip(0) ! index; gate(7); flip(1) ! index; flip(-1) ! index; flip(min) ! index; flip(max) ! index",
+                "flip(0) = 1; 11 * gate(7); flip(12) ! index; flip(11) = 1");
+        Script.isUndoable("gate(7)", "flip(0)");
+        Script.isUndoable("gate(7); flip(0); drop(3); play(4)", "flip(0)");
     }
 
     private static void settingsAreChanged() {
-        MarbleGates x = new MarbleGates();
-        Checks.due("set(0, 9)", x.set(0, 9), 1);
-        Checks.due("set(0, 1)", x.set(0, 1), 9);
-        Checks.due("set(1, 1)", x.set(1, 1), 40);
-        Checks.due("set(1, 40)", x.set(1, 40), 1);
-        Checks.due("set(1, 10)", x.set(1, 10), 40);
-        Checks.due("the gap", x.count(5), 1);
-        Checks.due("the level", x.count(6), 10);
-        Checks.refusedAsIndex(x, "set(2, 1)", () -> x.set(2, 1));
-        Checks.refusedAsIndex(x, "set(-1, 0)", () -> x.set(-1, 0));
-        Checks.refusedAsArgument(x, "set(0, 0)", () -> x.set(0, 0));
-        Checks.refusedAsArgument(x, "set(0, 10)", () -> x.set(0, 10));
-        Checks.refusedAsArgument(x, "set(1, 0)", () -> x.set(1, 0));
-        Checks.refusedAsArgument(x, "set(1, 41)", () -> x.set(1, 41));
-        Checks.due("undo()", x.undo(), 4);
-        Checks.due("the level after undo", x.count(6), 40);
+        Script.holds("6: Changes a setting. Returns the previous value.",
+                "set(0, 5) = 1; set(1, 17) = 40; set(0, 5) = 5; set(1, 18) = 17; count(5) = 5; count(6) = 18");
+        Script.holds("6: `setting`: 0 or 1. Throws `IndexOutOfBoundsException` if there is no such setting",
+                "set(-1, 1) ! index; set(2, 1) ! index; set(min, 1) ! index; set(max, 1) ! index; set(0, 1) = 1",
+                "set(1, 1) = 40");
+        String range = "6: Throws `IllegalArgumentException` if value is out of range";
+        Script.holds(range + ": the gap", "set(0, 1) = 1; set(0, 9) = 1; set(0, 0) ! argument; set(0, 10) ! argument",
+                "set(0, -1) ! argument; set(0, 40) ! argument; set(0, min) ! argument; set(0, max) ! argument");
+        Script.holds(range + ": the level", "set(1, 1) = 40; set(1, 40) = 1; set(1, 10) = 40; set(1, 0) ! argument",
+                "set(1, 41) ! argument; set(1, -1) ! argument; set(1, min) ! argument; set(1, max) ! argument");
+        Script.holds("6: the one that its throws clause lists first is thrown",
+                "set(2, 0) ! index; set(-1, 41) ! index; set(2, 41) ! index");
+        Script.isUndoable("set(0, 9)");
+        Script.isUndoable("set(1, 39)");
+        Script.isUndoable("gate(1); drop(3); play(4)", "set(1, 40)");
     }
 }

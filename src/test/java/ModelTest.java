@@ -1,16 +1,12 @@
 /** Long runs of calls, ordinary and wrong ones mixed, each answered as the model answers it. */
 public final class ModelTest {
-    private static final String[] NAMES = {"gate", "lead", "tune", "flip", "set", "drop", "play", "empty", "append",
-        "clearBuffer", "firstError", "execute", "undo", "keep", "goBack", "gateOf", "ball", "bin", "count", "note",
-        "chord", "notes", "meanPitch", "rolled", "sideAfter", "binOf", "firstInto", "period", "way"};
     /** How often each call is chosen; the dear ones seldom. */
     private static final int[] WEIGHTS = {6, 12, 3, 6, 4, 8, 10, 3, 0, 1, 4, 6, 4, 2, 2, 12, 12, 8, 10, 8, 6, 8, 3, 6, 5,
         4, 3, 2, 4};
-    private static final int CALLS = 512;
     private static final String SIGNS = "gedtfLRb;0123456789g1;d5;t9;e0L";
 
     private long seed;
-    private final MarbleGates x = new MarbleGates();
+    private final Subject x = new Subject();
     private final Model model = new Model();
     private int calls;
 
@@ -39,8 +35,8 @@ public final class ModelTest {
         for (int weight : WEIGHTS) {
             total += weight;
         }
-        while (calls < CALLS) {
-            if (below(9) == 0 && calls + 62 < CALLS) {
+        while (calls < Subject.CALL_LIMIT) {
+            if (below(9) == 0 && calls + 62 < Subject.CALL_LIMIT) {
                 type(run);
             }
             int choice = below(total);
@@ -56,7 +52,7 @@ public final class ModelTest {
     private void type(int run) {
         String text = below(3) == 0 ? noise() : orders();
         same(run, 9, new int[0]);
-        for (int i = 0; i < text.length() && calls < CALLS; i++) {
+        for (int i = 0; i < text.length() && calls < Subject.CALL_LIMIT; i++) {
             same(run, 8, new int[] {text.charAt(i)});
         }
         same(run, below(2) == 0 ? 10 : 11, new int[0]);
@@ -94,7 +90,7 @@ public final class ModelTest {
 
     /** The model is asked, so that the object itself has no more calls than the document allows. */
     private int asked(int what) {
-        return (int) model.call(18, what);
+        return model.call(18, what).intValue();
     }
 
     private int gate() {
@@ -135,41 +131,7 @@ public final class ModelTest {
 
     private void same(int run, int call, int[] a) {
         calls++;
-        String what = "run " + run + ", call " + calls + ": " + NAMES[call] + java.util.Arrays.toString(a);
-        Checks.dueText(what, Checks.outcome(() -> answer(call, a)), Checks.outcome(() -> model.call(call, a)));
-    }
-
-    private float answer(int call, int[] a) {
-        return switch (call) {
-            case 0 -> x.gate(a[0]);
-            case 1 -> x.lead(a[0], a[1], a[2]);
-            case 2 -> x.tune(a[0], a[1]);
-            case 3 -> x.flip(a[0]);
-            case 4 -> x.set(a[0], a[1]);
-            case 5 -> x.drop(a[0]);
-            case 6 -> x.play(a[0]);
-            case 7 -> x.empty(a[0]);
-            case 8 -> x.append(a[0]);
-            case 9 -> x.clearBuffer();
-            case 10 -> x.firstError();
-            case 11 -> x.execute();
-            case 12 -> x.undo();
-            case 13 -> x.keep(a[0]);
-            case 14 -> x.goBack(a[0]);
-            case 15 -> x.gateOf(a[0], a[1]);
-            case 16 -> x.ball(a[0], a[1]);
-            case 17 -> x.bin(a[0], a[1]);
-            case 18 -> x.count(a[0]);
-            case 19 -> x.note(a[0], a[1]);
-            case 20 -> x.chord(a[0]);
-            case 21 -> x.notes(a[0]);
-            case 22 -> x.meanPitch();
-            case 23 -> x.rolled(a[0], a[1], a[2]);
-            case 24 -> x.sideAfter(a[0], a[1]);
-            case 25 -> x.binOf(a[0]);
-            case 26 -> x.firstInto(a[0]);
-            case 27 -> x.period();
-            default -> x.way(a[0] == 1);
-        };
+        String what = "run " + run + ", call " + calls + ": " + Subject.NAMES.get(call) + java.util.Arrays.toString(a);
+        Checks.dueText(what, x.outcome(call, a), Checks.outcome(() -> model.call(call, a)));
     }
 }

@@ -1,152 +1,129 @@
 /** Promises 21 to 24: note, chord, notes, meanPitch. */
 public final class NotesTest {
+    /** Two gates, one behind the other; each ball rings the pitches 5 and 9 in two beats. */
+    private static final String TWO_BELLS = "gate(5); gate(9); lead(0, 0, 1); lead(0, 1, 1)";
+    /** 59 notes of the pitch 0, one in each of the beats 2 to 60; one more comes with each beat. */
+    private static final String FIFTY_NINE = "gate(0); set(1, 1); drop(40); drop(40); play(50); play(10)";
+
     public static void main(String[] args) {
-        withoutNotes();
         notesAreTold();
-        aNoteKeepsItsPitch();
-        sixtyNotesAreKept();
-        chordsAreGathered();
-        equalChordsCountOnce();
-        theCommonestPitchIsTheLowest();
-        ofTheOldestBeatOnlyTheKeptNotesCount();
+        notesAreRefused();
+        chordsAreTold();
+        numbersWithoutNotes();
+        pitchesAreCounted();
+        chordsAreCounted();
+        stepsAreCounted();
+        theMeanPitchIsTold();
+        nothingChanges();
         Checks.end("NotesTest");
     }
 
-    private static void withoutNotes() {
-        MarbleGates x = new MarbleGates();
-        int[] due = {0, 0, MarbleGates.NONE, 0, 0, 0, 0};
-        for (int what = 0; what < due.length; what++) {
-            Checks.due("without notes: notes(" + what + ")", x.notes(what), due[what]);
-        }
-        Checks.due("without notes: meanPitch()", x.meanPitch(), 0.0);
-        Checks.due("without notes: note(0, 0)", x.note(0, 0), MarbleGates.NONE);
-        Checks.due("without notes: chord(0)", x.chord(0), 0);
-        Checks.refusedAsArgument(x, "note(-1, 0)", () -> x.note(-1, 0));
-        Checks.refusedAsArgument(x, "note(0, 3)", () -> x.note(0, 3));
-        Checks.refusedAsArgument(x, "note(0, -1)", () -> x.note(0, -1));
-        Checks.refusedAsArgument(x, "note(99, 3)", () -> x.note(99, 3));
-        Checks.refusedAsArgument(x, "chord(-1)", () -> x.chord(-1));
-        Checks.refusedAsArgument(x, "notes(7)", () -> x.notes(7));
-        Checks.refusedAsArgument(x, "notes(-1)", () -> x.notes(-1));
-    }
-
-    /** Two gates, one behind the other; each ball rings the pitches 5 and 9 in two beats. */
-    private static MarbleGates twoBells(int balls) {
-        MarbleGates x = Checks.gates(5, 9);
-        x.lead(0, 0, 1);
-        x.lead(0, 1, 1);
-        x.drop(balls);
-        return x;
-    }
-
     private static void notesAreTold() {
-        MarbleGates x = twoBells(2);
-        x.play(4);
-        int[][] due = {{4, 1, 9}, {3, 0, 5}, {3, 1, 9}, {2, 0, 5}};
-        for (int index = 0; index < due.length; index++) {
-            for (int what = 0; what < 3; what++) {
-                Checks.due("note(" + index + ", " + what + ")", x.note(index, what), due[index][what]);
-            }
+        Script.holds("21: `index`: 0 for the latest one, 1 for the one before, and so on", TWO_BELLS, "drop(2); play(4)",
+                "note(0, 0) = 4; note(0, 1) = 1; note(0, 2) = 9; note(1, 0) = 3; note(1, 1) = 0; note(1, 2) = 5",
+                "note(2, 0) = 3; note(2, 1) = 1; note(2, 2) = 9; note(3, 0) = 2; note(3, 1) = 0; note(3, 2) = 5");
+        String none = "21: NONE if not so many are kept";
+        Script.holds(none, "note(0, 0) = NONE; note(0, 2) = NONE", TWO_BELLS, "drop(1); play(2); note(0, 0) = 2",
+                "note(1, 0) = NONE; note(1, 1) = NONE; note(1, 2) = NONE; note(59, 0) = NONE; note(max, 2) = NONE");
+        Script.holds(none + ": 60 and one more", FIFTY_NINE, "note(58, 0) = 2; note(59, 0) = NONE; play(1); note(59, 0) = 2",
+                "note(60, 0) = NONE; play(1); note(59, 0) = 3; note(60, 0) = NONE; note(61, 0) = NONE; note(0, 0) = 62");
+    }
+
+    private static void notesAreRefused() {
+        Script.holds("21: Throws `IllegalArgumentException` if index is negative, or what is not 0 to 2", TWO_BELLS,
+                "drop(1); play(2); note(-1, 0) ! argument; note(min, 0) ! argument; note(0, -1) ! argument",
+                "note(0, 3) ! argument; note(0, min) ! argument; note(0, max) ! argument; note(-1, 3) ! argument",
+                "note(0, 0) = 2; note(0, 2) = 5");
+        Script.holds("21: Throws `IllegalArgumentException`, also if not so many are kept",
+                "note(0, 3) ! argument; note(0, -1) ! argument; note(-1, 0) ! argument; note(60, 3) ! argument");
+    }
+
+    private static void chordsAreTold() {
+        Script.holds("22: Returns the chord of a beat.", "gate(3); gate(3); gate(8); lead(0, 0, 1); lead(0, 1, 1)",
+                "lead(1, 0, 2); lead(1, 1, 2); drop(3); play(6); chord(2) = 8; chord(3) = 8; chord(4) = 264",
+                "chord(5) = 264; chord(6) = 256");
+        Script.holds("22: 0 if no note of this beat is kept", "chord(0) = 0; chord(1) = 0; chord(max) = 0; gate(0); drop(2)",
+                "play(1); chord(0) = 0; chord(1) = 0; play(3); chord(1) = 0; chord(2) = 1; chord(3) = 1; chord(4) = 0",
+                "chord(5) = 0; chord(max) = 0");
+        Script.holds("22: 0 if no note of this beat is kept: 60 notes and one more", FIFTY_NINE, "play(1); chord(2) = 1",
+                "chord(61) = 1; play(1); chord(2) = 0; chord(3) = 1; chord(62) = 1");
+        Script.holds("22: a note keeps the pitch that the bell had then", TWO_BELLS, "drop(2); play(3); tune(1, 30)",
+                "chord(3) = 544; play(1); chord(4) = 1073741824; chord(3) = 544");
+        Script.holds("22: `beat`: 0 or more. Throws `IllegalArgumentException` if beat is negative",
+                "chord(-1) ! argument; chord(min) ! argument; chord(0) = 0");
+    }
+
+    private static void numbersWithoutNotes() {
+        String sentence = "23: NONE for 2 if none are kept.";
+        Script.holds(sentence, "notes(0) = 0; notes(1) = 0; notes(2) = NONE; notes(3) = 0; notes(4) = 0; notes(5) = 0",
+                "notes(6) = 0");
+        Script.holds(sentence, TWO_BELLS, "drop(1); play(1); notes(2) = NONE; notes(0) = 0; play(1); notes(2) = 5; undo()",
+                "notes(2) = NONE; notes(0) = 0");
+        Script.holds("23: one note", TWO_BELLS, "drop(1); play(2); notes(0) = 1; notes(1) = 1; notes(2) = 5; notes(3) = 1",
+                "notes(4) = 1; notes(5) = 0; notes(6) = 0");
+        Script.holds("23: Throws `IllegalArgumentException` if what is not 0 to 6",
+                "notes(-1) ! argument; notes(7) ! argument; notes(min) ! argument; notes(max) ! argument; notes(6) = 0");
+    }
+
+    private static void pitchesAreCounted() {
+        Script.holds("23: 0 how many there are, at most 60", FIFTY_NINE, "notes(0) = 59; play(1); notes(0) = 60; play(1)",
+                "notes(0) = 60; play(1); notes(0) = 60");
+        Script.holds("23: 1 how many different pitches they have", "gate(30); gate(0); lead(0, 0, 1); drop(2); play(5)",
+                "notes(0) = 3; notes(1) = 2; tune(0, 15); drop(1); play(3); notes(1) = 3");
+        Script.holds("23: 1 of the notes that are kept", FIFTY_NINE, "play(1); tune(0, 4); notes(1) = 1; play(1)",
+                "notes(1) = 2; count(4) = 18; drop(40); drop(40); play(50); notes(1) = 2; play(8); notes(1) = 2; play(1)",
+                "notes(1) = 1; notes(2) = 4");
+        Script.holds("23: 2 the pitch that most of them have (of several the lowest)", "gate(30); gate(2); lead(0, 0, 1)",
+                "drop(1); play(5); notes(2) = 2; drop(2); play(5); notes(2) = 30");
+        Script.holds("23: 2 of several the lowest: 0 and 30, 30 first and last", "gate(30); drop(1); play(2); tune(0, 0)",
+                "drop(2); play(3); tune(0, 30); drop(1); play(2); notes(0) = 4; notes(2) = 0; drop(1); play(2)",
+                "notes(2) = 30");
+    }
+
+    private static void chordsAreCounted() {
+        Script.holds("23: 3 how many different chords there are, 4 the greatest number of pitches in a chord",
+                "gate(3); gate(3); gate(8); lead(0, 0, 1); lead(0, 1, 1); lead(1, 0, 2); lead(1, 1, 2); drop(3); play(6)",
+                "notes(0) = 9; notes(1) = 2; notes(2) = 3; notes(3) = 3; notes(4) = 2");
+        Script.holds("23: (two beats with the same pitches have the same chord)",
+                "gate(4); drop(1); play(2); tune(0, 6); drop(1); play(2); tune(0, 4); drop(1); play(2); notes(3) = 2",
+                "notes(4) = 1; notes(0) = 3");
+        Script.holds("23: 3 as many chords as notes", "gate(0); drop(3); play(2); tune(0, 1); play(1); tune(0, 30); play(1)",
+                "notes(3) = 3; notes(4) = 1");
+        Script.holds("23: 3 and 4 of the notes that are kept", TWO_BELLS, "drop(31); play(33); count(9) = 62",
+                "notes(0) = 60; notes(3) = 3; notes(4) = 2; chord(3) = 32");
+        StringBuilder scale = new StringBuilder("gate(19)");
+        for (int gate = 1; gate < 12; gate++) {
+            scale.append("; gate(" + (19 + gate) + "); lead(" + (gate - 1) + ", 0, " + gate + "); lead(" + (gate - 1)
+                    + ", 1, " + gate + ")");
         }
-        Checks.due("note(4, 0)", x.note(4, 0), MarbleGates.NONE);
-        Checks.due("note(max, 0)", x.note(Integer.MAX_VALUE, 0), MarbleGates.NONE);
-        Checks.due("higher", x.notes(5), 2);
-        Checks.due("lower", x.notes(6), 1);
-        Checks.due("the mean", x.meanPitch(), 7.0);
+        Script.holds("23: 4 the greatest number of pitches in a chord: twelve", scale.toString(), "drop(40); play(12)",
+                "notes(4) = 11; play(1); notes(4) = 12; chord(13) = 2146959360; notes(3) = 7; notes(1) = 12");
     }
 
-    private static void aNoteKeepsItsPitch() {
-        MarbleGates x = twoBells(2);
-        x.play(3);
-        x.tune(1, 30);
-        Checks.due("the note that rang", x.note(1, 2), 9);
-        Checks.due("the chord that rang", x.chord(3), (1 << 5) | (1 << 9));
-        x.play(1);
-        Checks.due("the note that rings now", x.note(0, 2), 30);
-        Checks.due("its chord", x.chord(4), 1 << 30);
-        Checks.due("the mean", x.meanPitch(), (5 + 9 + 5 + 30) / 4.0f);
+    private static void stepsAreCounted() {
+        Script.holds("23: 5 how often a note is higher than the note before, 6 how often it is lower", TWO_BELLS,
+                "drop(2); play(4); notes(5) = 2; notes(6) = 1");
+        Script.holds("23: an equal note is not higher, nor lower", FIFTY_NINE, "notes(5) = 0; notes(6) = 0; tune(0, 1)",
+                "play(1); notes(5) = 1; notes(6) = 0; tune(0, 0); play(1); notes(5) = 1; notes(6) = 1; play(1)",
+                "notes(5) = 1; notes(6) = 1");
+        Script.holds("23: 5 and 6 of the notes that are kept", TWO_BELLS, "drop(31); play(33); count(9) = 62",
+                "note(59, 0) = 3; note(59, 2) = 5; notes(5) = 30; notes(6) = 29");
     }
 
-    private static void sixtyNotesAreKept() {
-        MarbleGates x = Checks.gates(0);
-        x.drop(40);
-        x.drop(30);
-        x.set(1, 1);
-        x.play(50);
-        Checks.due("49 notes", x.notes(0), 49);
-        x.play(11);
-        Checks.due("60 notes", x.notes(0), 60);
-        Checks.due("the oldest of 60", x.note(59, 0), 2);
-        x.play(1);
-        Checks.due("60 of 61 notes", x.notes(0), 60);
-        Checks.due("61 notes so far", x.count(9), 61);
-        Checks.due("the oldest that is kept", x.note(59, 0), 3);
-        Checks.due("note(60, 0)", x.note(60, 0), MarbleGates.NONE);
-        Checks.due("the chord of a note that is not kept", x.chord(2), 0);
-        Checks.due("the chord of the pitch 0", x.chord(3), 1);
-        Checks.due("the chord of a beat to come", x.chord(Integer.MAX_VALUE), 0);
-        Checks.due("equal notes are not higher", x.notes(5), 0);
-        Checks.due("nor lower", x.notes(6), 0);
-        Checks.due("the mean of zeros", x.meanPitch(), 0.0);
+    private static void theMeanPitchIsTold() {
+        Script.holds("24: 0.0f if none are kept", "meanPitch() = 0.0; gate(30); drop(1); play(1); meanPitch() = 0.0");
+        Script.holds("24: the sum of the pitches as a float, divided by the number of notes as a float", TWO_BELLS,
+                "drop(2); play(2); meanPitch() = 5.0; play(2); meanPitch() = 7.0; tune(1, 30); drop(1); play(3)",
+                "meanPitch() = 10.5");
+        Script.holds("24: divided as floats", "gate(4); drop(1); play(2); tune(0, 6); drop(1); play(2); tune(0, 4); drop(1)",
+                "play(2); meanPitch() = " + (float) 14 / (float) 3);
+        Script.holds("24: of the notes that are kept", FIFTY_NINE, "tune(0, 30); play(1); meanPitch() = 0.5; play(1)",
+                "meanPitch() = 1.0; drop(40); drop(40); play(50); play(8); meanPitch() = 30.0");
     }
 
-    private static void chordsAreGathered() {
-        MarbleGates x = Checks.gates(3, 3, 8);
-        x.lead(0, 0, 1);
-        x.lead(0, 1, 1);
-        x.lead(1, 0, 2);
-        x.lead(1, 1, 2);
-        x.drop(3);
-        x.play(6);
-        Checks.due("chord(2)", x.chord(2), 1 << 3);
-        Checks.due("chord(3), one pitch twice", x.chord(3), 1 << 3);
-        Checks.due("chord(4)", x.chord(4), (1 << 3) | (1 << 8));
-        Checks.due("chord(6)", x.chord(6), 1 << 8);
-        Checks.due("notes", x.notes(0), 9);
-        Checks.due("different pitches", x.notes(1), 2);
-        Checks.due("the commonest", x.notes(2), 3);
-        Checks.due("different chords", x.notes(3), 3);
-        Checks.due("the widest chord", x.notes(4), 2);
-    }
-
-    private static void equalChordsCountOnce() {
-        MarbleGates x = Checks.gates(4);
-        x.drop(1);
-        x.play(2);
-        x.tune(0, 6);
-        x.drop(1);
-        x.play(2);
-        x.tune(0, 4);
-        x.drop(1);
-        x.play(2);
-        Checks.due("chords of one pitch", x.notes(3), 2);
-        Checks.due("the widest of them", x.notes(4), 1);
-        Checks.due("higher once", x.notes(5), 1);
-        Checks.due("lower once", x.notes(6), 1);
-        Checks.due("the mean", x.meanPitch(), (float) 14 / (float) 3);
-    }
-
-    private static void theCommonestPitchIsTheLowest() {
-        MarbleGates x = Checks.gates(30, 2);
-        x.lead(0, 0, 1);
-        x.drop(1);
-        x.play(5);
-        Checks.due("of several the lowest", x.notes(2), 2);
-        x.drop(2);
-        x.play(5);
-        Checks.due("that most have", x.notes(2), 30);
-    }
-
-    /** The beats ring 9 and 5 by turns of two notes, so the window of 60 notes can cut a beat. */
-    private static void ofTheOldestBeatOnlyTheKeptNotesCount() {
-        MarbleGates x = twoBells(31);
-        x.play(33);
-        Checks.due("62 notes so far", x.count(9), 62);
-        Checks.due("the oldest that is kept", x.note(59, 0), 3);
-        Checks.due("its pitch", x.note(59, 2), 5);
-        Checks.due("what is kept of its beat", x.chord(3), 1 << 5);
-        Checks.due("the cut chord counts as it is kept", x.notes(3), 3);
-        Checks.due("the step from a note that is not kept does not count", x.notes(6), 29);
-        Checks.due("steps up", x.notes(5), 30);
+    private static void nothingChanges() {
+        Script.changeNothing("queries about notes; nothing changes", TWO_BELLS + "; drop(40); play(40)", "note(0, 0)",
+                "note(59, 2)", "note(60, 1)", "chord(0)", "chord(40)", "notes(0)", "notes(1)", "notes(2)", "notes(3)",
+                "notes(4)", "notes(5)", "notes(6)", "meanPitch()");
     }
 }

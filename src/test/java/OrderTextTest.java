@@ -1,162 +1,206 @@
-/** Promises 10 to 13: append, clearBuffer, firstError, execute. */
+/** Promises 10 to 13: append, clearBuffer, firstError, execute; and "Order text" in "Terms". */
 public final class OrderTextTest {
+    private static final String DIGITS = "0123456789";
+    private static final String KINDS = "gedtf";
+
     public static void main(String[] args) {
         charactersAreAppended();
         theBufferIsCleared();
-        errorsAreFound();
-        completeTextsHaveNoError();
+        onlyTheseCharactersMayFollow();
+        theFirstErrorIsFound();
+        incompleteTextsHaveNoError();
         ordersAreExecuted();
+        eachNumberIsExecuted();
         executionStopsWhereAMethodWouldThrow();
+        executionClearsAndStops();
         incompleteTextsAreRefused();
-        executeIsOneCall();
+        executeIsUndoableAsOneCall();
         Checks.end("OrderTextTest");
     }
 
     private static void charactersAreAppended() {
-        MarbleGates x = new MarbleGates();
-        Checks.refusedAsArgument(x, "append(32)", () -> x.append(32));
-        Checks.refusedAsArgument(x, "append(127)", () -> x.append(127));
-        Checks.refusedAsArgument(x, "append(-1)", () -> x.append(-1));
-        Checks.due("append(33)", x.append(33), 1);
-        Checks.due("append(126)", x.append(126), 2);
-        for (int length = 3; length <= 60; length++) {
-            Checks.due("append to " + length, x.append('g'), length);
-        }
-        Checks.due("length", x.count(11), 60);
-        Checks.refusedAsState(x, "append to 61", () -> x.append('g'));
-        Checks.refusedAsArgument(x, "append(32) to 61", () -> x.append(32));
-        Checks.due("not undoable", x.count(10), 0);
+        Script.holds("10: Appends a character to the buffer. Returns the new length of the buffer.",
+                "append(103) = 1; append(49) = 2; count(11) = 2; firstError() = 2; execute() = 1; gateOf(0, 1) = 1");
+        Script.holds("10: `code`: a character code, 33 to 126", "append(33) = 1; append(126) = 2; count(11) = 2");
+        Script.holds("10: Throws `IllegalArgumentException` if code is out of range",
+                "append(32) ! argument; append(127) ! argument; append(0) ! argument; append(-1) ! argument",
+                "append(359) ! argument; append(min) ! argument; append(max) ! argument; count(11) = 0");
+        Script.holds("10: Throws `IllegalStateException` if the buffer holds 60 characters",
+                "59 * append(103); append(33) = 60; append(33) ! state; append(126) ! state; count(11) = 60",
+                "clearBuffer() = 60; append(126) = 1");
+        Script.holds("10: the one that its throws clause lists first is thrown",
+                "60 * append(103); append(32) ! argument; append(127) ! argument; append(-1) ! argument");
+        Script.holds("The buffer holds at most 60 characters. It is empty at first.",
+                "count(11) = 0; 59 * append(103); append(103) = 60; append(103) ! state; count(11) = 60");
     }
 
     private static void theBufferIsCleared() {
-        MarbleGates x = new MarbleGates();
-        Checks.due("clearBuffer() of an empty one", x.clearBuffer(), 0);
-        Checks.type(x, "x1");
-        Checks.due("clearBuffer()", x.clearBuffer(), 2);
-        Checks.due("length", x.count(11), 0);
-        Checks.due("firstError()", x.firstError(), 0);
-        Checks.due("append after clearing", x.append('g'), 1);
-        Checks.due("not undoable", x.count(10), 0);
+        Script.holds("11: Clears the buffer. Returns the length that it had.",
+                "clearBuffer() = 0; append(103); append(49); clearBuffer() = 2; count(11) = 0; firstError() = 0",
+                "clearBuffer() = 0; 60 * append(120); clearBuffer() = 60; count(11) = 0; append(103) = 1",
+                "firstError() = 1");
+        Script.holds("10, 11 and 12 are not undoable", "append(103); firstError(); clearBuffer(); count(10) = 0");
     }
 
-    private static void errorAt(String text, int index) {
-        MarbleGates x = new MarbleGates();
-        Checks.type(x, text);
-        Checks.due("firstError() of " + text, x.firstError(), index);
-        Checks.due("length of " + text, x.count(11), text.length());
+    private static void mayFollow(String text, String allowed) {
+        for (char c = 33; c <= 126; c++) {
+            int due = text.length() + (allowed.indexOf(c) >= 0 ? 1 : 0);
+            Script.holds("12: after " + text + " comes " + c, "type " + text + c, "firstError() = " + due);
+        }
     }
 
-    private static void errorsAreFound() {
-        String[] atZero = {"x", "G", "1", ";", "L", "b", "E", "T"};
-        for (String text : atZero) {
-            errorAt(text, 0);
-        }
-        String[] atOne = {"gg", "g;", "gL", "eL", "eb", "e;", "d0", "t0", "d;", "t;", "f;", "fb", "d:", "g/"};
-        for (String text : atOne) {
-            errorAt(text, 1);
-        }
-        String[] atTwo = {"g31", "g40", "g00", "g01", "gL1", "e12", "e20", "e01", "e1;", "e1b", "e1l", "d41", "d50",
-            "t51", "t60", "f12", "f20", "f01", "g1L", "f1R", "d1b", "g4:"};
-        for (String text : atTwo) {
-            errorAt(text, text.charAt(1) == 'L' ? 1 : 2);
-        }
-        errorAt("g300", 3);
-        errorAt("f110", 3);
-        errorAt("e1LL", 3);
-        errorAt("e1L;", 3);
-        errorAt("e11R12", 5);
-        errorAt("e1R20", 4);
-        errorAt("e1R00", 4);
-        errorAt("e1Rb5", 4);
-        errorAt("e1Rb;", 4);
-        errorAt("e1Rb44", 5);
-        errorAt("e1Rbb", 4);
-        errorAt("e1R1b", 4);
-        errorAt("e1R111", 5);
-        errorAt("g1;;", 3);
-        errorAt("g1;x", 3);
-        errorAt("g1,g2", 2);
-        errorAt("g1;d41;x", 5);
-    }
-
-    private static void completeTextsHaveNoError() {
-        String[] texts = {"", "g", "g0", "g30", "g9;", "e", "e0", "e11", "e0L", "e0L0", "e11R11", "e10Lb", "e0Rb0",
-            "e0Lb4;", "d1", "d40", "d9;", "t1", "t50", "t49", "f0", "f11", "f10;t5;", "e0L10;e9R9;g29;d39"};
+    private static void mayFollowEach(String[] texts, String allowed) {
         for (String text : texts) {
-            errorAt(text, text.length());
+            mayFollow(text, allowed);
         }
-        errorAt("g1;g1;g1;g1;g1;g1;g1;g1;g1;g1;g1;g1;g1;g1;g1;g1;g1;g1;g1;g1;", 60);
+    }
+
+    private static void onlyTheseCharactersMayFollow() {
+        mayFollowEach(new String[] {"", "g1;", "e0Lb0;", "e11R11;d40;"}, KINDS);
+        mayFollowEach(new String[] {"g", "e", "f", "t5;g"}, DIGITS);
+        mayFollowEach(new String[] {"d", "t"}, "123456789");
+        mayFollowEach(new String[] {"g1", "g2", "d1", "d2", "d3", "t1", "t2", "t3", "t4"}, DIGITS + ";");
+        mayFollowEach(new String[] {"g3", "d4", "t5"}, "0;");
+        mayFollowEach(new String[] {"f1", "e0L1", "e11R1"}, "01;");
+        mayFollowEach(new String[] {"g0", "g4", "g9", "g10", "g29", "g30", "d5", "d9", "d10", "d39", "d40", "t6", "t9",
+            "t10", "t49", "t50", "f0", "f2", "f9", "f10", "f11", "e0L0", "e0L2", "e0L9", "e0L10", "e0R11", "e0Lb0",
+            "e0Rb4"}, ";");
+        mayFollow("e1", "01LR");
+        mayFollowEach(new String[] {"e0", "e2", "e9", "e10", "e11"}, "LR");
+        mayFollowEach(new String[] {"e0L", "e0R", "e11L", "e11R"}, DIGITS + "b");
+        mayFollowEach(new String[] {"e0Lb", "e11Rb"}, "01234");
+    }
+
+    private static void errorAt(String sentence, int index, String... texts) {
+        for (String text : texts) {
+            Script.holds("12: " + sentence, "type " + text, "firstError() = " + index + "; count(11) = " + text.length());
+        }
+    }
+
+    private static void theFirstErrorIsFound() {
+        errorAt("one or more orders with \";\" between them", 0, ";", ";g1", "x", "G1", "1");
+        errorAt("one or more orders with \";\" between them", 3, "g1;;", "g1;x", "g1;1", "g1;;g1");
+        errorAt("\"g\" and a pitch from 0 to 30", 2, "g31", "g39", "g40", "g99");
+        errorAt("\"g\" and a pitch from 0 to 30", 1, "g-1", "g;", "g+1", "gg1");
+        errorAt("\"g\" and a pitch from 0 to 30", 3, "g300", "g100");
+        errorAt("\"e\", a gate from 0 to 11", 2, "e12L0", "e20L0", "e99L0");
+        errorAt("\"L\" or \"R\" for the left or the right exit", 2, "e1l0", "e1r0", "e1;", "e1M", "e1K");
+        errorAt("\"L\" or \"R\" for the left or the right exit", 3, "e1LL0", "e1RL0", "e11x", "e1L;");
+        errorAt("then either a gate from 0 to 11", 4, "e0L12", "e0L20", "e0R13");
+        errorAt("then either a gate from 0 to 11", 5, "e0L111", "e0R110", "e11R12");
+        errorAt("or \"b\" and a bin from 0 to 4", 4, "e0Lb5", "e0Rb9", "e0Lb;", "e0Rbb");
+        errorAt("or \"b\" and a bin from 0 to 4", 5, "e0Lb40", "e0Lb00", "e0Rb11");
+        errorAt("or \"b\" and a bin from 0 to 4", 3, "e0LB1", "e0Rc1");
+        errorAt("\"d\" and a number from 1 to 40", 1, "d0", "d;", "d-1");
+        errorAt("\"d\" and a number from 1 to 40", 2, "d41", "d49", "d50");
+        errorAt("\"d\" and a number from 1 to 40", 3, "d400", "d111");
+        errorAt("\"t\" and a number from 1 to 50", 1, "t0", "t;", "t-1");
+        errorAt("\"t\" and a number from 1 to 50", 2, "t51", "t59", "t60");
+        errorAt("\"t\" and a number from 1 to 50", 3, "t500", "t111");
+        errorAt("\"f\" and a gate from 0 to 11", 2, "f12", "f19", "f20");
+        errorAt("\"f\" and a gate from 0 to 11", 1, "f;", "f-1", "fb");
+        errorAt("Numbers have no leading zeros.", 2, "g00", "g01", "g030", "e00L1", "e01L1", "f00", "f01");
+        errorAt("Numbers have no leading zeros.", 1, "d01", "t01", "d00");
+        errorAt("Numbers have no leading zeros.", 4, "e0L00", "e0R01");
+        errorAt("the index of the first character that no order text can have", 2, "g1x;x", "g31;g31", "d9:d9");
+        errorAt("the index of the first character that no order text can have", 59,
+                "t1;t1;t1;t1;t1;t1;t1;t1;t1;t1;t1;t1;t1;t1;t1;t1;t1;t1;t1;t1x", "t10;".repeat(14) + "e0L;");
+    }
+
+    private static void incompleteTextsHaveNoError() {
+        String sentence = "the length of the buffer if there is no error (also if the text is not complete)";
+        String[] texts = {"", "g", "g0", "g30", "g9;", "e", "e0", "e11", "e0L", "e0L0", "e11R11", "e10Lb", "e0Rb0",
+            "e0Lb4;", "d", "d1", "d40", "d9;", "t", "t1", "t50", "t49", "f", "f0", "f11", "f10;t5;", "e3L2", "e3L3",
+            "g1;".repeat(20), "t1;".repeat(19) + "t1", "t10;".repeat(14) + "e0L1", "t10;".repeat(14) + "e0Lb"};
+        for (String text : texts) {
+            errorAt(sentence, text.length(), text);
+        }
+        Script.changeNothing("12: Finds the first error", "gate(1); append(103); append(49); append(120); append(103)",
+                "firstError() = 2");
     }
 
     private static void ordersAreExecuted() {
-        MarbleGates x = new MarbleGates();
-        Checks.type(x, "g7;g30;e0R1;e1Lb4;f1;d12;t10");
-        Checks.due("execute()", x.execute(), 7);
-        Checks.due("the buffer is cleared", x.count(11), 0);
-        Checks.due("gates", x.count(1), 2);
-        Checks.due("pitch", x.gateOf(1, 1), 30);
-        Checks.due("right target of 0", x.gateOf(0, 3), 1);
-        Checks.due("left target of 0", x.gateOf(0, 2), 20);
-        Checks.due("left target of 1", x.gateOf(1, 2), 24);
-        Checks.due("flipped", x.gateOf(1, 7), 1);
-        Checks.due("to be dropped", x.count(4), 2);
-        Checks.due("dropped", x.count(7), 10);
-        Checks.due("the beat", x.count(0), 10);
-        Checks.type(x, "f0");
-        Checks.due("execute() of one", x.execute(), 1);
-        Checks.type(x, "g1;g2;g3;g4;g5;g6;g7;g8;g9;g10;e0L11;e10Rb0");
-        Checks.due("execute() up to 12 gates", x.execute(), 12);
-        Checks.due("gates", x.count(1), 12);
-        Checks.due("two digits lead", x.gateOf(0, 2), 11);
+        Script.holds("13: Executes the orders in the buffer, one after the other. Returns how many orders are executed.",
+                "type g7;g30;e0R1;e1Lb4;f1;d12;t10", "execute() = 7; count(11) = 0; count(1) = 2; gateOf(0, 1) = 7",
+                "gateOf(1, 1) = 30; gateOf(0, 2) = 20; gateOf(0, 3) = 1; gateOf(1, 2) = 24; gateOf(1, 3) = 20",
+                "gateOf(1, 7) = 1; gateOf(0, 7) = 0; count(4) = 2; count(7) = 10; count(0) = 10; count(9) = 13");
+        Script.holds("13: one order", "gate(1)", "type f0", "execute() = 1; gateOf(0, 0) = 1");
+        Script.holds("13: twenty orders", "type " + "t1;".repeat(19) + "t1", "execute() = 20; count(0) = 20");
+        Script.holds("13: a text of 60 characters", "gate(1)", "type " + "t1;".repeat(17) + "t10;e0Lb4",
+                "count(11) = 60; append(59) ! state; execute() = 19; count(0) = 27; gateOf(0, 2) = 24; count(11) = 0");
     }
 
-    private static void stopsAfter(MarbleGates x, String text, int executed) {
-        Checks.type(x, text);
-        int saved = x.count(10);
-        Checks.due("execute() of " + text, x.execute(), executed);
-        Checks.due("length after " + text, x.count(11), 0);
-        Checks.due("saved after " + text, x.count(10), Math.min(saved + 1, 6));
+    private static void eachNumberIsExecuted() {
+        Script.holds("\"g\" and a pitch from 0 to 30", "type g0;g9;g10;g30", "execute() = 4; gateOf(0, 1) = 0",
+                "gateOf(1, 1) = 9; gateOf(2, 1) = 10; gateOf(3, 1) = 30");
+        Script.holds("\"e\", a gate from 0 to 11, \"L\" or \"R\" ..., and then either a gate from 0 to 11", "12 * gate(1)",
+                "type e0L1;e0R11;e10L11;e8R10;e9L10", "execute() = 5; gateOf(0, 2) = 1; gateOf(0, 3) = 11",
+                "gateOf(10, 2) = 11; gateOf(10, 3) = 20; gateOf(8, 3) = 10; gateOf(9, 2) = 10");
+        Script.holds("or \"b\" and a bin from 0 to 4", "12 * gate(1); lead(11, 0, 21)",
+                "type e0Lb0;e0Rb4;e11Lb0;e11Rb4;e10Lb1;e9Rb2;e8Lb3", "execute() = 7; gateOf(0, 2) = 20; gateOf(0, 3) = 24",
+                "gateOf(11, 2) = 20; gateOf(11, 3) = 24; gateOf(10, 2) = 21; gateOf(9, 3) = 22; gateOf(8, 2) = 23");
+        Script.holds("\"d\" and a number from 1 to 40", "type d1", "execute() = 1; count(4) = 1", "type d40",
+                "execute() = 1; count(4) = 41", "type d9;d10", "execute() = 2; count(4) = 60");
+        Script.holds("\"t\" and a number from 1 to 50", "type t1", "execute() = 1; count(0) = 1", "type t50",
+                "execute() = 1; count(0) = 51", "type t9;t10", "execute() = 2; count(0) = 70");
+        Script.holds("\"f\" and a gate from 0 to 11", "12 * gate(1)", "type f0;f11;f10;f9", "execute() = 4",
+                "gateOf(0, 0) = 1; gateOf(11, 0) = 1; gateOf(10, 0) = 1; gateOf(9, 0) = 1; gateOf(1, 0) = 0");
+    }
+
+    private static void stops(String before, String text, int executed) {
+        Script.holds("13: up to the first one whose method would throw an exception", before, "type " + text + ";t50;t50",
+                "execute() = " + executed + "; count(11) = 0; count(0) = 0");
+        Script.holds("13: without the one whose method would throw", before, "type t1;" + text, "execute() = "
+                + (executed + 1) + "; count(0) = 1");
     }
 
     private static void executionStopsWhereAMethodWouldThrow() {
-        stopsAfter(new MarbleGates(), "f0;g1", 0);
-        stopsAfter(new MarbleGates(), "g1;e0L0;g2", 1);
-        stopsAfter(new MarbleGates(), "g1;e0L1;g2", 1);
-        stopsAfter(new MarbleGates(), "g1;e1Lb0;g2", 1);
-        stopsAfter(new MarbleGates(), "g1;g1;e1R0;g2", 2);
-        stopsAfter(new MarbleGates(), "g1;f1", 1);
-        MarbleGates x = new MarbleGates();
-        stopsAfter(x, "d40;d40;d40;d40;d39;d2;d1", 5);
-        Checks.due("to be dropped", x.count(4), 199);
-        stopsAfter(x, "d1;d1;t1", 1);
-        Checks.due("the order after the stop is left out", x.count(0), 0);
-        MarbleGates full = new MarbleGates();
-        stopsAfter(full, "g1;g1;g1;g1;g1;g1;g1;g1;g1;g1;g1;g1;g1;t1", 12);
-        Checks.due("gates", full.count(1), 12);
+        stops("11 * gate(1)", "g3;g4", 1);
+        stops("12 * gate(1)", "g3", 0);
+        stops("12 * gate(1)", "g30", 0);
+        stops("count(0)", "e0Lb0", 0);
+        stops("count(0)", "f0", 0);
+        stops("2 * gate(1)", "f1;f2", 1);
+        stops("2 * gate(1)", "f11", 0);
+        stops("2 * gate(1)", "e1Lb0;e2Lb0", 1);
+        stops("2 * gate(1)", "e11Rb4", 0);
+        stops("2 * gate(1)", "e0L1;e0L2", 1);
+        stops("2 * gate(1)", "e0R11", 0);
+        stops("2 * gate(1)", "e0L0", 0);
+        stops("2 * gate(1)", "e1L1", 0);
+        stops("2 * gate(1)", "e1R0", 0);
+        stops("12 * gate(1)", "e10R11;e11R11", 1);
+        stops("12 * gate(1)", "e11L10", 0);
+        stops("4 * drop(40)", "d40;d1", 1);
+        stops("4 * drop(40)", "d39;d2", 1);
+        stops("4 * drop(40); drop(1)", "d40", 0);
+        stops("5 * drop(40)", "d1", 0);
+    }
+
+    private static void executionClearsAndStops() {
+        Script.holds("13: up to the first one: a later one that could be executed is left out",
+                "4 * drop(40); drop(39)", "type d2;d1;g1", "execute() = 0; count(4) = 199; count(1) = 0; count(11) = 0");
+        Script.holds("13: an order counts with what the orders before it did",
+                "type f0;g1", "execute() = 0; count(1) = 0", "type g1;f0;g2;e0L1;d1;t2", "execute() = 6; count(0) = 2",
+                "gateOf(0, 7) = 1; gateOf(0, 5) = 1; count(7) = 1");
+        Script.holds("13: a ball that is dropped makes room for another", "5 * drop(40)", "type g1;t1;d1;d1",
+                "execute() = 3; count(4) = 200; count(7) = 1");
     }
 
     private static void incompleteTextsAreRefused() {
-        String[] texts = {"", "g", "g1;", "e", "e1", "e1L", "e1Lb", "d", "t", "f", "t5;g", "x", "g31", "g1;;", "e12",
-            "g1;e0L", "d1;e0"};
+        String[] texts = {"", "g", "g1;", "e", "e1", "e11", "e1L", "e1Lb", "d", "t", "f", "t5;g", "x", "g31", "g1;;", "e12",
+            "g1;e0L", "d1;e0", ";g1", "g1;x", "d0", "g00", "g1;".repeat(20), "t1;".repeat(19) + "t"};
         for (String text : texts) {
-            MarbleGates x = Checks.gates(4);
-            Checks.type(x, text);
-            Checks.refusedAsArgument(x, "execute() of " + text, () -> x.execute());
-            Checks.due("length of " + text, x.count(11), text.length());
+            Script.holds("13: Throws `IllegalArgumentException` if the buffer is not a complete order text", "gate(4)",
+                    "type " + text, "execute() ! argument; count(11) = " + text.length() + "; count(1) = 1");
         }
     }
 
-    private static void executeIsOneCall() {
-        MarbleGates x = new MarbleGates();
-        String before = Checks.stateView(x);
-        Checks.type(x, "g1;g2;d3;t9");
-        Checks.due("execute()", x.execute(), 4);
-        Checks.due("saved states", x.count(10), 1);
-        Checks.type(x, "f0");
-        Checks.due("undo()", x.undo(), 0);
-        Checks.dueText("the state before", Checks.stateView(x), before);
-        Checks.due("undo leaves the buffer", x.count(11), 2);
-        Checks.due("execute() of nothing that can be done", x.execute(), 0);
-        Checks.due("is saved too", x.count(10), 1);
+    private static void executeIsUndoableAsOneCall() {
+        Script.isUndoable("type g1;g2;d3;t9", "execute()");
+        Script.isUndoable("gate(1); drop(3)", "type f0;t9;g1;e0Lb4;d40;t50", "execute()");
+        Script.isUndoable("gate(1); drop(3)", "type f1", "execute()");
+        Script.holds("13: Undoable, as one call: undo leaves the buffer", "type g1;g2;d3;t9", "execute() = 4; count(10) = 1",
+                "type f0", "undo() = 0; count(1) = 0; count(11) = 2; execute() = 0; count(10) = 1; count(11) = 0");
     }
 }

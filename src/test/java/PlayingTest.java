@@ -1,200 +1,67 @@
-/** Promises 7 to 9: drop, play, empty. */
+/** Promises 7 to 9: drop, play, empty. What a beat does is in TermsTest too. */
 public final class PlayingTest {
     public static void main(String[] args) {
         dropsAreCounted();
         dropsAreRefused();
         aBallRolls();
-        ballsKeepTheirOrder();
-        theGapIsKept();
-        withoutGatesNothingDrops();
-        theStockRunsOut();
-        theLiftBringsBack();
-        theLiftComesAfterTheDrop();
-        playIsRefusedAndUndone();
+        beatsPass();
         binsAreEmptied();
         Checks.end("PlayingTest");
     }
 
     private static void dropsAreCounted() {
-        MarbleGates x = new MarbleGates();
-        Checks.due("drop(1)", x.drop(1), 1);
-        Checks.due("drop(40)", x.drop(40), 41);
-        Checks.due("to be dropped", x.count(4), 41);
-        Checks.due("dropped", x.count(7), 0);
-        Checks.due("undo()", x.undo(), 1);
-        Checks.due("to be dropped after undo", x.count(4), 1);
+        Script.holds("7: Lets more balls be dropped. Returns how many balls are to be dropped then.",
+                "drop(3) = 3; drop(4) = 7; count(4) = 7; count(7) = 0; gate(1); play(2); count(4) = 5; drop(1) = 6");
+        Script.holds("7: `count`: 1 to 40", "drop(1) = 1; drop(40) = 41; count(4) = 41");
+        Script.isUndoable("drop(40)");
+        Script.isUndoable("gate(1); drop(3); play(2)", "drop(1)");
     }
 
     private static void dropsAreRefused() {
-        MarbleGates x = new MarbleGates();
-        Checks.refusedAsArgument(x, "drop(0)", () -> x.drop(0));
-        Checks.refusedAsArgument(x, "drop(41)", () -> x.drop(41));
-        Checks.refusedAsArgument(x, "drop(-1)", () -> x.drop(-1));
-        for (int i = 1; i <= 4; i++) {
-            x.drop(40);
-        }
-        Checks.due("drop(39) to 199", x.drop(39), 199);
-        Checks.refusedAsState(x, "drop(2) to 201", () -> x.drop(2));
-        Checks.due("drop(1) to 200", x.drop(1), 200);
-        Checks.refusedAsState(x, "drop(1) to 201", () -> x.drop(1));
-        Checks.refusedAsArgument(x, "drop(41) at 200", () -> x.drop(41));
-        Checks.refusedAsArgument(x, "drop(max)", () -> x.drop(Integer.MAX_VALUE));
+        Script.holds("7: Throws `IllegalArgumentException` if count is out of range",
+                "drop(0) ! argument; drop(41) ! argument; drop(-1) ! argument; drop(min) ! argument; drop(max) ! argument");
+        String more = "7: Throws `IllegalStateException` if more than 200 balls would be to be dropped";
+        Script.holds(more, "4 * drop(40); drop(40) = 200; drop(1) ! state; drop(40) ! state; count(4) = 200");
+        Script.holds(more, "4 * drop(40); drop(1) = 161; drop(40) ! state; drop(39) = 200; drop(1) ! state");
+        Script.holds(more, "4 * drop(40); drop(39) = 199; drop(2) ! state; drop(1) = 200; gate(1); play(1)",
+                "drop(2) ! state; drop(1) = 200; count(7) = 1");
+        Script.holds("7: the one that its throws clause lists first is thrown",
+                "5 * drop(40); drop(0) ! argument; drop(41) ! argument; drop(-1) ! argument; drop(max) ! argument");
     }
 
     private static void aBallRolls() {
-        MarbleGates x = Checks.gates(5, 9);
-        x.lead(0, 0, 1);
-        x.lead(1, 0, 23);
-        x.drop(1);
-        Checks.due("play(1), the drop", x.play(1), 0);
-        Checks.due("stock", x.count(2), 39);
-        Checks.due("in the run", x.count(3), 1);
-        Checks.due("to be dropped", x.count(4), 0);
-        Checks.due("dropped", x.count(7), 1);
-        Checks.due("its gate", x.ball(0, 0), 0);
-        Checks.due("play(1), the first gate", x.play(1), 1);
-        Checks.due("its gate", x.ball(0, 0), 1);
-        Checks.due("the gate 0 stands right", x.gateOf(0, 0), 1);
-        Checks.due("left through the exit 0", x.gateOf(0, 4), 1);
-        Checks.due("play(1), the second gate", x.play(1), 1);
-        Checks.due("in the run", x.count(3), 0);
-        Checks.due("in the bin 3", x.bin(3, 0), 1);
-        Checks.due("came into the bin 3", x.bin(3, 1), 1);
-        Checks.due("stock", x.count(2), 39);
-        Checks.due("play(50), nothing more", x.play(50), 0);
-        Checks.due("the beat", x.count(0), 53);
-        Checks.due("the latest note's beat", x.note(0, 0), 3);
-        Checks.due("the latest note's pitch", x.note(0, 2), 9);
+        Script.holds("8: a ball rolls from gate to gate",
+                "gate(5); gate(9); lead(0, 0, 1); lead(1, 0, 23); drop(1); play(1) = 0; count(2) = 39; count(3) = 1",
+                "count(4) = 0; count(7) = 1; ball(0, 0) = 0; play(1) = 1; ball(0, 0) = 1; gateOf(0, 0) = 1",
+                "gateOf(0, 4) = 1; play(1) = 1; count(3) = 0; bin(3, 0) = 1; bin(3, 1) = 1; count(2) = 39; play(50) = 0",
+                "count(0) = 53; note(0, 0) = 3; note(0, 2) = 9");
     }
 
-    private static void ballsKeepTheirOrder() {
-        MarbleGates x = Checks.gates(5, 9);
-        x.lead(0, 0, 1);
-        x.lead(0, 1, 1);
-        x.drop(3);
-        x.play(2);
-        Checks.due("the earliest is at the gate 1", x.ball(0, 0), 1);
-        Checks.due("the next is at the gate 0", x.ball(1, 0), 0);
-        Checks.due("play(1)", x.play(1), 2);
-        Checks.due("the earlier ball rang first", x.note(1, 1), 1);
-        Checks.due("the later ball rang then", x.note(0, 1), 0);
-        Checks.due("now the earliest was dropped in the beat 2", x.ball(0, 1), 2);
-        Checks.due("and passed", x.ball(0, 2), 1);
-        Checks.due("the next was dropped in the beat 3", x.ball(1, 1), 3);
-        Checks.due("and passed", x.ball(1, 2), 0);
-    }
-
-    private static void theGapIsKept() {
-        MarbleGates x = Checks.gates(5);
-        x.set(0, 3);
-        x.drop(5);
-        x.play(2);
-        Checks.due("dropped in 2 beats", x.count(7), 0);
-        x.play(1);
-        Checks.due("dropped in 3 beats", x.count(7), 1);
-        x.play(5);
-        Checks.due("dropped in 8 beats", x.count(7), 2);
-        x.play(1);
-        Checks.due("dropped in 9 beats", x.count(7), 3);
-        Checks.due("its beat", x.ball(0, 1), 9);
-    }
-
-    private static void withoutGatesNothingDrops() {
-        MarbleGates x = new MarbleGates();
-        x.drop(2);
-        Checks.due("play(5)", x.play(5), 0);
-        Checks.due("to be dropped", x.count(4), 2);
-        Checks.due("the beat", x.count(0), 5);
-        x.gate(3);
-        Checks.due("play(3)", x.play(3), 2);
-        Checks.due("to be dropped", x.count(4), 0);
-    }
-
-    private static void theStockRunsOut() {
-        MarbleGates x = Checks.gates(5);
-        x.lead(0, 1, 21);
-        x.drop(40);
-        x.drop(5);
-        x.play(45);
-        Checks.due("dropped", x.count(7), 40);
-        Checks.due("to be dropped", x.count(4), 5);
-        Checks.due("stock", x.count(2), 0);
-        Checks.due("empty(1)", x.empty(1), 20);
-        x.play(10);
-        Checks.due("dropped", x.count(7), 45);
-        Checks.due("stock", x.count(2), 15);
-    }
-
-    private static void theLiftBringsBack() {
-        MarbleGates x = Checks.gates(5);
-        x.lead(0, 0, 23);
-        x.lead(0, 1, 21);
-        x.drop(4);
-        x.play(10);
-        x.set(1, 2);
-        x.play(1);
-        Checks.due("of equal bins the lowest gives", x.bin(1, 0), 1);
-        Checks.due("the other keeps", x.bin(3, 0), 2);
-        Checks.due("lifted", x.count(8), 1);
-        Checks.due("stock", x.count(2), 37);
-        x.play(1);
-        Checks.due("then the fuller one gives", x.bin(3, 0), 1);
-        x.play(5);
-        Checks.due("below the level nothing is lifted", x.count(8), 2);
-        Checks.due("came into the bin 1", x.bin(1, 1), 2);
-        x.set(1, 1);
-        x.play(5);
-        Checks.due("all are back", x.count(2), 40);
-        Checks.due("an empty bin gives none", x.count(8), 4);
-    }
-
-    private static void theLiftComesAfterTheDrop() {
-        MarbleGates x = Checks.gates(5);
-        x.drop(40);
-        x.play(41);
-        Checks.due("the forty in the bin 0 meet the level 40", x.bin(0, 0), 39);
-        Checks.due("lifted", x.count(8), 1);
-        x.undo();
-        x.drop(1);
-        x.play(41);
-        Checks.due("the stock was empty when the drop was due", x.count(7), 40);
-        Checks.due("stock", x.count(2), 1);
-        x.play(1);
-        Checks.due("one beat later it drops", x.count(7), 41);
-    }
-
-    private static void playIsRefusedAndUndone() {
-        MarbleGates x = Checks.gates(5);
-        x.drop(3);
-        Checks.refusedAsArgument(x, "play(0)", () -> x.play(0));
-        Checks.refusedAsArgument(x, "play(51)", () -> x.play(51));
-        Checks.refusedAsArgument(x, "play(-1)", () -> x.play(-1));
-        String before = Checks.stateView(x);
-        Checks.due("play(50)", x.play(50), 3);
-        Checks.due("saved as one call", x.count(10), 3);
-        Checks.due("undo()", x.undo(), 2);
-        Checks.dueText("the state before", Checks.stateView(x), before);
+    private static void beatsPass() {
+        Script.holds("8: `beats`: 1 to 50", "play(1) = 0; count(0) = 1; play(50) = 0; count(0) = 51");
+        Script.holds("8: Returns how many notes ring in them.",
+                "play(50) = 0; gate(1); drop(40); play(1) = 0; play(1) = 1; play(2) = 2; play(50) = 37; play(50) = 0");
+        Script.holds("8: Returns how many notes ring in them, also more than are kept",
+                "3 * gate(1); lead(0, 0, 1); lead(0, 1, 1); lead(1, 0, 2); lead(1, 1, 2); drop(40); play(50) = 120",
+                "notes(0) = 60; count(9) = 120");
+        Script.holds("8: Throws `IllegalArgumentException` if beats is out of range",
+                "gate(1); drop(3); play(0) ! argument; play(51) ! argument; play(-1) ! argument; play(min) ! argument",
+                "play(max) ! argument; count(0) = 0");
+        Script.isUndoable("play(1)");
+        Script.isUndoable("gate(1); drop(3)", "play(50)");
+        Script.isUndoable("3 * gate(1); lead(0, 0, 1); lead(1, 0, 2); set(1, 2); drop(40); play(45)", "play(50)");
     }
 
     private static void binsAreEmptied() {
-        MarbleGates x = Checks.gates(5);
-        x.lead(0, 1, 24);
-        x.drop(3);
-        x.play(5);
-        Checks.due("empty(0)", x.empty(0), 2);
-        Checks.due("its balls", x.bin(0, 0), 0);
-        Checks.due("came into it", x.bin(0, 1), 2);
-        Checks.due("the bin 4 keeps", x.bin(4, 0), 1);
-        Checks.due("stock", x.count(2), 39);
-        Checks.due("not lifted", x.count(8), 0);
-        Checks.due("empty(0) again", x.empty(0), 0);
-        Checks.due("saved even if nothing changes", x.count(10), 6);
-        Checks.refusedAsIndex(x, "empty(5)", () -> x.empty(5));
-        Checks.refusedAsIndex(x, "empty(-1)", () -> x.empty(-1));
-        Checks.refusedAsIndex(x, "empty(20)", () -> x.empty(20));
-        x.undo();
-        x.undo();
-        Checks.due("its balls after undo", x.bin(0, 0), 2);
-        Checks.due("stock after undo", x.count(2), 37);
+        Script.holds("9: Brings all balls of a bin back to the stock. Returns how many balls it had.",
+                "gate(5); lead(0, 1, 24); drop(3); play(5); empty(0) = 2; bin(0, 0) = 0; bin(0, 1) = 2; bin(4, 0) = 1",
+                "count(2) = 39; count(8) = 0; empty(0) = 0; count(2) = 39; empty(4) = 1; count(2) = 40; empty(1) = 0");
+        Script.holds("9: all balls, up to 39, while one is in the run",
+                "gate(5); drop(40); play(40); bin(0, 0) = 39; count(2) = 0; empty(0) = 39; count(2) = 39; count(3) = 1");
+        Script.holds("9: `bin`: 0 to 4. Throws `IndexOutOfBoundsException` if there is no such bin",
+                "empty(-1) ! index; empty(5) ! index; empty(20) ! index; empty(24) ! index; empty(min) ! index",
+                "empty(max) ! index; empty(0) = 0; empty(4) = 0");
+        Script.isUndoable("gate(5); drop(3); play(5)", "empty(0)");
+        Script.isUndoable("gate(5); drop(3); play(5)", "empty(4)");
     }
 }

@@ -1,7 +1,11 @@
-/** Promises 25 to 30: rolled, sideAfter, binOf, firstInto, period, way. */
+/** Promises 25 to 30: rolled, sideAfter, binOf, firstInto, period, way; and "Rolling out" in "Terms". */
 public final class RollingTest {
+    /** The gate 0 lets out to the gates 1 and 2, the gate 1 to the bin 1 and the gate 2, that to the bins 2 and 3. */
+    private static final String THREE_GATES = "gate(1); gate(2); gate(3); lead(0, 0, 1); lead(0, 1, 2); lead(1, 0, 21)"
+            + "; lead(1, 1, 2); lead(2, 0, 22); lead(2, 1, 23)";
+
     public static void main(String[] args) {
-        withoutGates();
+        onlyTheStandingGatesMatter();
         ballsAreRolledInBothWays();
         rolledIsRefused();
         sidesAreForetold();
@@ -9,202 +13,162 @@ public final class RollingTest {
         theFirstBallIsFound();
         thePeriodIsFound();
         theWaysAreMeasured();
-        onlyTheStandingGatesMatter();
+        nothingChanges();
         Checks.end("RollingTest");
     }
 
-    private static void withoutGates() {
-        MarbleGates x = new MarbleGates();
-        for (int target = 20; target < 25; target++) {
-            int bin = target;
-            Checks.due("without gates: rolled(9, " + bin + ", 0)", x.rolled(9, bin, 0), 0);
-            Checks.due("without gates: rolled(9, " + bin + ", 1)", x.rolled(9, bin, 1), 0);
-            Checks.due("without gates: firstInto", x.firstInto(bin - 20), MarbleGates.NONE);
-        }
-        Checks.due("without gates: binOf(0)", x.binOf(0), MarbleGates.NONE);
-        Checks.due("without gates: period()", x.period(), MarbleGates.NONE);
-        Checks.due("without gates: way(true)", x.way(true), 0);
-        Checks.due("without gates: way(false)", x.way(false), 0);
-        Checks.refusedAsIndex(x, "without gates: rolled(0, 0, 0)", () -> x.rolled(0, 0, 0));
-        Checks.refusedAsIndex(x, "without gates: sideAfter(0, 0)", () -> x.sideAfter(0, 0));
-        Checks.refusedAsArgument(x, "without gates: binOf(1000)", () -> x.binOf(1000));
-        Checks.refusedAsArgument(x, "without gates: rolled(1001, 20, 0)", () -> x.rolled(1001, 20, 0));
-    }
-
-    /** The gate 0 lets out to the gates 1 and 2, the gate 1 to the bin 1 and the gate 2, that to the bins 2 and 3. */
-    private static MarbleGates threeGates() {
-        MarbleGates x = Checks.gates(1, 2, 3);
-        x.lead(0, 0, 1);
-        x.lead(0, 1, 2);
-        x.lead(1, 0, 21);
-        x.lead(1, 1, 2);
-        x.lead(2, 0, 22);
-        x.lead(2, 1, 23);
-        return x;
-    }
-
-    private static MarbleGates chain(int size) {
-        MarbleGates x = new MarbleGates();
-        for (int gate = 0; gate < size; gate++) {
-            x.gate(gate);
-        }
+    /** The left exit of each gate leads to the next one, all other exits to the bin 0. */
+    private static String chain(int size) {
+        StringBuilder rows = new StringBuilder(size + " * gate(1)");
         for (int gate = 0; gate + 1 < size; gate++) {
-            x.lead(gate, 0, gate + 1);
+            rows.append("; lead(" + gate + ", 0, " + (gate + 1) + ")");
         }
-        return x;
+        return rows.toString();
     }
 
-    private static void dueRolled(MarbleGates x, int count, int target, int due) {
-        Checks.due("rolled(" + count + ", " + target + ", 0)", x.rolled(count, target, 0), due);
-        Checks.due("rolled(" + count + ", " + target + ", 1)", x.rolled(count, target, 1), due);
+    private static String bothWays(int count, int target, int due) {
+        String call = "rolled(" + count + ", " + target + ", ";
+        return call + "0) = " + due + "; " + call + "1) = " + due;
+    }
+
+    private static void onlyTheStandingGatesMatter() {
+        String gates = "gate(1); gate(2); lead(0, 0, 1); lead(0, 1, 22); lead(1, 0, 23); lead(1, 1, 24)";
+        String asTheyStand = String.join("; ", bothWays(3, 0, 3), bothWays(3, 1, 2), bothWays(3, 22, 1),
+                bothWays(3, 23, 1), bothWays(3, 24, 1), bothWays(3, 20, 0),
+                "sideAfter(3, 0) = 1; sideAfter(3, 1) = 0; binOf(0) = 3; binOf(1) = 2; binOf(2) = 4; binOf(3) = 2",
+                "binOf(4) = 3; firstInto(3) = 0; firstInto(2) = 1; firstInto(4) = 2; firstInto(0) = NONE; period() = 4",
+                "way(true) = 2; way(false) = 1");
+        Script.holds("The gates as they stand decide", gates, asTheyStand);
+        Script.holds("The gates as they stand decide: after a flip", gates, "flip(0)", bothWays(3, 22, 2),
+                "sideAfter(3, 0) = 0; binOf(0) = 2; binOf(1) = 3; firstInto(3) = 1; firstInto(4) = 3; period() = 4");
+        String not = " do not matter";
+        Script.holds("balls in the run" + not, gates, "drop(1); play(1); count(3) = 1", asTheyStand);
+        Script.holds("bells" + not, gates, "tune(0, 30); tune(1, 0)", asTheyStand);
+        Script.holds("beats" + not, gates, "set(0, 9); play(50)", asTheyStand);
+        Script.holds("the stock" + not, gates, "drop(40); play(50); count(2) = 0; count(3) = 0", asTheyStand);
+        Script.holds("the lift" + not, gates, "set(1, 1)", asTheyStand);
+        Script.holds("the balls that are to be dropped" + not, gates, "5 * drop(40)", asTheyStand);
     }
 
     private static void ballsAreRolledInBothWays() {
-        MarbleGates x = threeGates();
-        dueRolled(x, 0, 0, 0);
-        dueRolled(x, 0, 21, 0);
-        dueRolled(x, 1, 21, 1);
-        dueRolled(x, 7, 0, 7);
-        dueRolled(x, 7, 1, 4);
-        dueRolled(x, 7, 2, 5);
-        dueRolled(x, 7, 20, 0);
-        dueRolled(x, 7, 21, 2);
-        dueRolled(x, 7, 22, 3);
-        dueRolled(x, 7, 23, 2);
-        dueRolled(x, 7, 24, 0);
-        dueRolled(x, 1000, 1, 500);
-        dueRolled(x, 1000, 2, 750);
-        dueRolled(x, 1000, 22, 375);
-        x.flip(0);
-        dueRolled(x, 7, 1, 3);
-        dueRolled(x, 7, 2, 5);
-        x.flip(2);
-        dueRolled(x, 7, 22, 2);
-        dueRolled(x, 7, 23, 3);
-        MarbleGates unreached = Checks.gates(1, 2);
-        dueRolled(unreached, 10, 1, 0);
-        dueRolled(unreached, 10, 20, 10);
+        Script.holds("25: Returns how many balls would come to a gate or into a bin if balls were rolled out", THREE_GATES,
+                bothWays(1, 21, 1), bothWays(7, 0, 7), bothWays(7, 1, 4), bothWays(7, 2, 5), bothWays(7, 20, 0),
+                bothWays(7, 21, 2), bothWays(7, 22, 3), bothWays(7, 23, 2), bothWays(7, 24, 0));
+        Script.holds("25: (n + 1) / 2 leave through the exit to which it stands, and n / 2 through the other one",
+                THREE_GATES, "flip(0)", bothWays(1, 1, 0), bothWays(1, 2, 1), bothWays(7, 1, 3), bothWays(7, 2, 5),
+                "flip(2)", bothWays(1, 22, 0), bothWays(1, 23, 1), bothWays(7, 22, 2), bothWays(7, 23, 3));
+        Script.holds("25: `count`: 0 to 1000", THREE_GATES, bothWays(0, 0, 0), bothWays(0, 2, 0), bothWays(0, 21, 0),
+                bothWays(1000, 0, 1000), bothWays(1000, 1, 500), bothWays(1000, 2, 750), bothWays(1000, 21, 250),
+                bothWays(1000, 22, 375), bothWays(1000, 23, 375), bothWays(999, 22, 375), bothWays(999, 23, 374));
+        Script.holds("25: through twelve gates", chain(12), "lead(11, 0, 23); lead(11, 1, 24)", bothWays(1000, 3, 125),
+                bothWays(1000, 4, 63), bothWays(1000, 10, 1), bothWays(1000, 11, 1), bothWays(1000, 20, 999),
+                bothWays(1000, 23, 1), bothWays(1000, 24, 0), bothWays(1, 11, 1));
+        Script.holds("25: `target`: a gate that no ball reaches", "2 * gate(1)", bothWays(10, 1, 0), bothWays(10, 20, 10));
+        for (int target = 20; target <= 24; target++) {
+            Script.holds("25: (none into a bin if there are no gates)", bothWays(0, target, 0), bothWays(1, target, 0),
+                    bothWays(1000, target, 0));
+        }
     }
 
     private static void rolledIsRefused() {
-        MarbleGates x = threeGates();
-        int[] noTargets = {-1, 3, 11, 12, 19, 25, Integer.MIN_VALUE, Integer.MAX_VALUE};
-        for (int target : noTargets) {
-            Checks.refusedAsIndex(x, "rolled(1, " + target + ", 0)", () -> x.rolled(1, target, 0));
-            Checks.refusedAsIndex(x, "rolled(1001, " + target + ", 2)", () -> x.rolled(1001, target, 2));
-        }
-        Checks.refusedAsArgument(x, "rolled(-1, 0, 0)", () -> x.rolled(-1, 0, 0));
-        Checks.refusedAsArgument(x, "rolled(1001, 0, 1)", () -> x.rolled(1001, 0, 1));
-        Checks.refusedAsArgument(x, "rolled(1, 0, 2)", () -> x.rolled(1, 0, 2));
-        Checks.refusedAsArgument(x, "rolled(1, 20, -1)", () -> x.rolled(1, 20, -1));
+        String noSuch = "25: Throws `IndexOutOfBoundsException` if there is no such gate or bin";
+        Script.holds(noSuch, "rolled(1, 0, 0) ! index; rolled(1, 19, 0) ! index; rolled(1, 25, 1) ! index", THREE_GATES,
+                "rolled(1, -1, 0) ! index; rolled(1, 3, 0) ! index; rolled(1, 3, 1) ! index; rolled(1, 11, 0) ! index",
+                "rolled(1, 12, 0) ! index; rolled(1, 19, 1) ! index; rolled(1, 25, 0) ! index; rolled(1, min, 0) ! index",
+                "rolled(1, max, 1) ! index; rolled(1, 2, 0) = 0; rolled(1, 20, 0) = 0; rolled(1, 24, 0) = 0");
+        String range = "25: Throws `IllegalArgumentException` if count is out of range, or way is not 0 or 1";
+        Script.holds(range, THREE_GATES, "rolled(-1, 0, 0) ! argument; rolled(1001, 0, 1) ! argument",
+                "rolled(-1, 20, 1) ! argument; rolled(1001, 20, 0) ! argument; rolled(min, 0, 0) ! argument",
+                "rolled(max, 0, 1) ! argument; rolled(1, 0, -1) ! argument; rolled(1, 0, 2) ! argument",
+                "rolled(1, 20, min) ! argument; rolled(1, 20, max) ! argument; rolled(1001, 0, 2) ! argument");
+        Script.holds(range + ", also without gates", "rolled(-1, 20, 0) ! argument; rolled(1001, 24, 0) ! argument",
+                "rolled(0, 20, 2) ! argument; rolled(0, 20, -1) ! argument");
+        Script.holds("25: the one that its throws clause lists first is thrown", "rolled(1001, 0, 2) ! index", THREE_GATES,
+                "rolled(1001, 3, 0) ! index; rolled(-1, 25, 1) ! index; rolled(1, 19, 2) ! index; rolled(-1, -1, -1) ! index");
     }
 
     private static void sidesAreForetold() {
-        MarbleGates x = threeGates();
         int[][] due = {{0, 0, 0}, {1, 1, 0}, {0, 1, 1}, {1, 0, 0}, {0, 0, 1}};
         for (int count = 0; count < due.length; count++) {
             for (int gate = 0; gate < 3; gate++) {
-                Checks.due("sideAfter(" + count + ", " + gate + ")", x.sideAfter(count, gate), due[count][gate]);
+                Script.holds("26: Returns the side to which a gate would stand after balls were rolled out.", THREE_GATES,
+                        "sideAfter(" + count + ", " + gate + ") = " + due[count][gate]);
             }
         }
-        Checks.due("sideAfter(1000, 2)", x.sideAfter(1000, 2), 0);
-        x.flip(1);
-        Checks.due("sideAfter(0, 1) after flip(1)", x.sideAfter(0, 1), 1);
-        Checks.due("sideAfter(1, 1) after flip(1)", x.sideAfter(1, 1), 0);
-        Checks.refusedAsIndex(x, "sideAfter(1, 3)", () -> x.sideAfter(1, 3));
-        Checks.refusedAsIndex(x, "sideAfter(-1, 3)", () -> x.sideAfter(-1, 3));
-        Checks.refusedAsIndex(x, "sideAfter(1, -1)", () -> x.sideAfter(1, -1));
-        Checks.refusedAsIndex(x, "sideAfter(1, 20)", () -> x.sideAfter(1, 20));
-        Checks.refusedAsArgument(x, "sideAfter(-1, 0)", () -> x.sideAfter(-1, 0));
-        Checks.refusedAsArgument(x, "sideAfter(1001, 0)", () -> x.sideAfter(1001, 0));
+        Script.holds("26: `count`: 0 to 1000", THREE_GATES, "sideAfter(0, 2) = 0; sideAfter(999, 0) = 1; sideAfter(999, 2) = 1",
+                "sideAfter(1000, 0) = 0; sideAfter(1000, 2) = 0; flip(1); sideAfter(0, 1) = 1; sideAfter(1, 1) = 0",
+                "sideAfter(1000, 1) = 1");
+        Script.holds("26: `gate`: its number, the last of 12", chain(12), "sideAfter(1, 11) = 1; sideAfter(1000, 11) = 1",
+                "sideAfter(1000, 3) = 1; sideAfter(1000, 4) = 1; sideAfter(1000, 5) = 0");
+        Script.holds("26: Throws `IndexOutOfBoundsException` if there is no such gate", "sideAfter(0, 0) ! index",
+                THREE_GATES, "sideAfter(1, -1) ! index; sideAfter(1, 3) ! index; sideAfter(1, 20) ! index",
+                "sideAfter(1, min) ! index; sideAfter(1, max) ! index; sideAfter(1, 2) = 0");
+        Script.holds("26: Throws `IllegalArgumentException` if count is out of range", THREE_GATES,
+                "sideAfter(-1, 0) ! argument; sideAfter(1001, 0) ! argument; sideAfter(min, 2) ! argument",
+                "sideAfter(max, 2) ! argument; sideAfter(0, 0) = 0");
+        Script.holds("26: the one that its throws clause lists first is thrown", "sideAfter(-1, 0) ! index", THREE_GATES,
+                "sideAfter(-1, 3) ! index; sideAfter(1001, -1) ! index; sideAfter(1001, 3) ! index");
     }
 
     private static void binsAreForetold() {
-        MarbleGates x = threeGates();
-        int[] due = {1, 2, 3, 2, 1, 3, 2, 3};
-        for (int index = 0; index < due.length; index++) {
-            Checks.due("binOf(" + index + ")", x.binOf(index), due[index]);
-        }
-        Checks.due("binOf(999)", x.binOf(999), due[999 % 8]);
-        Checks.refusedAsArgument(x, "binOf(-1)", () -> x.binOf(-1));
-        Checks.refusedAsArgument(x, "binOf(1000)", () -> x.binOf(1000));
+        Script.holds("27: `index`: 0 for the first ball, and so on", THREE_GATES, "binOf(0) = 1; binOf(1) = 2; binOf(2) = 3",
+                "binOf(3) = 2; binOf(4) = 1; binOf(5) = 3; binOf(6) = 2; binOf(7) = 3; binOf(8) = 1");
+        Script.holds("27: up to 999", THREE_GATES, "binOf(998) = 2; binOf(999) = 3; binOf(1000) ! argument");
+        Script.holds("27: NONE if there are no gates", "binOf(0) = NONE; binOf(999) = NONE; gate(1); binOf(0) = 0");
+        Script.holds("27: Throws `IllegalArgumentException` if index is out of range", "binOf(-1) ! argument",
+                "binOf(1000) ! argument", THREE_GATES, "binOf(-1) ! argument; binOf(1000) ! argument; binOf(min) ! argument",
+                "binOf(max) ! argument; binOf(0) = 1");
     }
 
     private static void theFirstBallIsFound() {
-        MarbleGates x = threeGates();
-        int[] due = {MarbleGates.NONE, 0, 1, 2, MarbleGates.NONE};
-        for (int bin = 0; bin < 5; bin++) {
-            Checks.due("firstInto(" + bin + ")", x.firstInto(bin), due[bin]);
-        }
-        MarbleGates last = chain(12);
-        last.lead(11, 0, 23);
-        last.lead(11, 1, 24);
-        Checks.due("through twelve gates at once", last.firstInto(3), 0);
-        Checks.due("when the gate 11 lets out again", last.firstInto(4), 2048);
-        for (int gate = 0; gate < 11; gate++) {
-            last.flip(gate);
-        }
-        Checks.due("the ball in the middle", last.firstInto(3), 2047);
-        Checks.due("the last ball of all", last.firstInto(4), 4095);
-        Checks.refusedAsIndex(x, "firstInto(5)", () -> x.firstInto(5));
-        Checks.refusedAsIndex(x, "firstInto(-1)", () -> x.firstInto(-1));
-        Checks.refusedAsIndex(x, "firstInto(20)", () -> x.firstInto(20));
+        Script.holds("28: Finds the first ball that would come into a bin. `bin`: 0 to 4", THREE_GATES,
+                "firstInto(0) = NONE; firstInto(1) = 0; firstInto(2) = 1; firstInto(3) = 2; firstInto(4) = NONE");
+        Script.holds("28: its index, 0 for the first ball, up to 4095", chain(12),
+                "lead(11, 0, 23); lead(11, 1, 24); firstInto(3) = 0; firstInto(4) = 2048; firstInto(0) = 1; flip(0); flip(1)",
+                "flip(2); flip(3); flip(4); flip(5); flip(6); flip(7); flip(8); flip(9); flip(10); firstInto(3) = 2047",
+                "firstInto(4) = 4095; firstInto(0) = 0; flip(11); firstInto(4) = 2047; firstInto(3) = 4095");
+        Script.holds("28: NONE if none of these would come into it", chain(12), "firstInto(0) = 0",
+                "firstInto(1) = NONE; firstInto(4) = NONE; lead(11, 0, 21); firstInto(1) = 0; lead(11, 0, 24)",
+                "firstInto(1) = NONE; firstInto(4) = 0");
+        Script.holds("28: NONE without gates", "firstInto(0) = NONE; firstInto(4) = NONE; gate(1); firstInto(0) = 0");
+        Script.holds("28: Throws `IndexOutOfBoundsException` if there is no such bin", "firstInto(-1) ! index",
+                "firstInto(5) ! index", THREE_GATES, "firstInto(-1) ! index; firstInto(5) ! index; firstInto(20) ! index",
+                "firstInto(24) ! index; firstInto(min) ! index; firstInto(max) ! index");
     }
 
     private static void thePeriodIsFound() {
         int due = 1;
         for (int size = 1; size <= 12; size++) {
             due *= 2;
-            MarbleGates x = chain(size);
-            Checks.due("the period of a chain of " + size, x.period(), due);
-            x.flip(0);
-            Checks.due("the period after a flip", x.period(), due);
+            Script.holds("29: Returns the least number, 1 to 4096", chain(size), "period() = " + due + "; flip(0); period() = "
+                    + due);
         }
-        Checks.due("the period of three gates", threeGates().period(), 8);
-        Checks.due("gates that no ball reaches", Checks.gates(1, 2, 3).period(), 2);
+        Script.holds("29: all gates stand to the same sides as now", THREE_GATES, "period() = 8; flip(1); period() = 8");
+        Script.holds("29: all gates, also those that no ball reaches", "3 * gate(1); flip(2); period() = 2");
+        Script.holds("29: the same sides though both exits lead to one gate",
+                "2 * gate(1); lead(0, 0, 1); lead(0, 1, 1); period() = 2");
+        Script.holds("29: NONE if there are no gates", "period() = NONE; gate(1); period() = 2; undo(); period() = NONE");
     }
 
     private static void theWaysAreMeasured() {
-        MarbleGates x = Checks.gates(1, 2, 3, 4);
-        Checks.due("most, a lone gate", x.way(true), 1);
-        Checks.due("least, a lone gate", x.way(false), 1);
-        x.lead(0, 0, 1);
-        Checks.due("most", x.way(true), 2);
-        Checks.due("least", x.way(false), 1);
-        x.lead(0, 1, 3);
-        x.lead(1, 0, 2);
-        x.lead(1, 1, 2);
-        x.lead(2, 1, 3);
-        Checks.due("most", x.way(true), 4);
-        Checks.due("least", x.way(false), 2);
-        x.flip(0);
-        Checks.due("however the gates stand", x.way(true), 4);
-        Checks.due("through twelve", chain(12).way(true), 12);
-        Checks.due("out at once", chain(12).way(false), 1);
+        Script.holds("30: how many gates a ball passes at most on its way from the gate 0 into a bin, or at least",
+                "4 * gate(1); lead(0, 0, 1); way(true) = 2; way(false) = 1; lead(0, 1, 3); way(false) = 2; lead(1, 0, 2)",
+                "lead(1, 1, 2); lead(2, 1, 3); way(true) = 4; way(false) = 2; lead(2, 1, 20); way(true) = 3");
+        Script.holds("30: however the gates stand", "2 * gate(1); lead(0, 0, 1); way(true) = 2; way(false) = 1; flip(0)",
+                "way(true) = 2; way(false) = 1");
+        Script.holds("30: one gate and twelve", "gate(1); way(true) = 1; way(false) = 1");
+        Script.holds("30: one gate and twelve", chain(12), "way(true) = 12; way(false) = 1");
+        Script.holds("30: at least twelve too", "12 * gate(1); lead(0, 0, 1); lead(0, 1, 1); lead(1, 0, 2); lead(1, 1, 2)",
+                "lead(2, 0, 3); lead(2, 1, 3); lead(3, 0, 4); lead(3, 1, 4); lead(4, 0, 5); lead(4, 1, 5); lead(5, 0, 6)",
+                "lead(5, 1, 6); lead(6, 0, 7); lead(6, 1, 7); lead(7, 0, 8); lead(7, 1, 8); lead(8, 0, 9); lead(8, 1, 9)",
+                "lead(9, 0, 10); lead(9, 1, 10); lead(10, 0, 11); lead(10, 1, 11); way(false) = 12; way(true) = 12");
+        Script.holds("30: 0 if there are no gates", "way(true) = 0; way(false) = 0; gate(1); way(false) = 1; undo()",
+                "way(true) = 0; way(false) = 0");
     }
 
-    private static void onlyTheStandingGatesMatter() {
-        MarbleGates x = threeGates();
-        x.drop(40);
-        x.play(5);
-        String before = Checks.view(x);
-        int balls = 0;
-        for (int target = 20; target < 25; target++) {
-            balls += x.rolled(100, target, 0);
-        }
-        Checks.due("all come into bins", balls, 100);
-        Checks.due("the first goes as the gates stand", x.binOf(0), firstBinFrom(x, 0));
-        x.period();
-        x.firstInto(4);
-        x.way(false);
-        Checks.dueText("nothing changes", Checks.view(x), before);
-    }
-
-    private static int firstBinFrom(MarbleGates x, int gate) {
-        int target = gate;
-        while (target < 20) {
-            target = x.gateOf(target, 2 + x.gateOf(target, 0));
-        }
-        return target - 20;
+    private static void nothingChanges() {
+        Script.changeNothing("rolling out; nothing changes", THREE_GATES + "; flip(1); drop(9); play(5)", "rolled(999, 1, 0)",
+                "rolled(999, 21, 1)", "sideAfter(1, 0)", "sideAfter(999, 2)", "binOf(0)", "binOf(999)", "firstInto(3)",
+                "firstInto(4) = NONE", "period()", "way(true)", "way(false)");
     }
 }

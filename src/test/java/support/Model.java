@@ -150,7 +150,7 @@ final class Model {
     }
 
     /** The number of a call is its place in the document's face. */
-    float call(int call, int... a) {
+    Number call(int call, int... a) {
         switch (call) {
             case 0, 1, 2, 3, 4, 5, 6, 7: {
                 State before = now.copy();
@@ -341,7 +341,7 @@ final class Model {
         change(1, new int[] {Integer.parseInt(parts[0]), exit, target});
     }
 
-    private float query(int call, int[] a) {
+    private Number query(int call, int[] a) {
         switch (call) {
             case 15:
                 index(isGate(a[0]));
