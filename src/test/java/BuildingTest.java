@@ -15,7 +15,8 @@ public final class BuildingTest {
         String sentence = "1: Creates a run without gates, with all balls in the stock.";
         Script.holds(sentence, "count(0) = 0; count(1) = 0; count(2) = 40; count(3) = 0; count(4) = 0; count(5) = 1",
                 "count(6) = 40; count(7) = 0; count(8) = 0; count(9) = 0; count(10) = 0; count(11) = 0");
-        Script.holds(sentence, "gateOf(0, 0) ! index; ball(0, 0) = NONE; note(0, 0) = NONE; notes(0) = 0; undo() ! state",
+        Script.holds(sentence,
+                "gateOf(0, 0) ! index; ball(0, 0) = NONE; note(0, 0) = NONE; notes(0) = 0; undo() ! state",
                 "goBack(0) ! state; goBack(1) ! state; execute() ! argument; firstError() = 0; clearBuffer() = 0");
         for (int bin = 0; bin < 5; bin++) {
             Script.holds(sentence, "bin(" + bin + ", 0) = 0; bin(" + bin + ", 1) = 0; bin(" + bin + ", 2) = 0");
@@ -26,7 +27,8 @@ public final class BuildingTest {
     private static void gatesAreBuilt() {
         Script.holds("2: Builds a gate.", "gate(7); gate(8) = 1; gateOf(1, 0) = 0; gateOf(1, 1) = 8; gateOf(1, 2) = 20",
                 "gateOf(1, 3) = 20; gateOf(1, 4) = 0; gateOf(1, 5) = 0; gateOf(1, 6) = 0; gateOf(1, 7) = 0; count(1) = 2");
-        Script.holds("2: `pitch`: 0 to 30", "gate(0) = 0; gate(30) = 1; gateOf(0, 1) = 0; gateOf(1, 1) = 30; count(1) = 2");
+        Script.holds("2: `pitch`: 0 to 30",
+                "gate(0) = 0; gate(30) = 1; gateOf(0, 1) = 0; gateOf(1, 1) = 30; count(1) = 2");
         Script.holds("2: Throws `IllegalArgumentException` if pitch is out of range",
                 "gate(-1) ! argument; gate(31) ! argument; gate(min) ! argument; gate(max) ! argument; count(1) = 0");
         Script.holds("2: Throws `IllegalStateException` if there are 12 gates",

@@ -28,7 +28,8 @@ public final class ExceptionsTest {
         refused("argument", "gate(-1)", "gate(31)");
         refused("state", "gate(0)", "gate(30)");
         refused("index", "lead(-1, 0, 20)", "lead(12, 0, 20)", "lead(0, -1, 20)", "lead(0, 2, 20)", "lead(0, 0, -1)",
-                "lead(0, 0, 12)", "lead(0, 0, 19)", "lead(0, 0, 25)", "lead(12, 0, 5)", "lead(5, 2, 4)", "lead(5, -1, 5)");
+                "lead(0, 0, 12)", "lead(0, 0, 19)", "lead(0, 0, 25)", "lead(12, 0, 5)", "lead(5, 2, 4)",
+                "lead(5, -1, 5)");
         refused("argument", "lead(0, 0, 0)", "lead(5, 0, 5)", "lead(5, 1, 4)", "lead(11, 1, 11)", "lead(11, 0, 0)");
         refused("index", "tune(-1, 3)", "tune(12, 3)", "tune(12, 31)", "tune(-1, -1)");
         refused("argument", "tune(0, -1)", "tune(0, 31)", "tune(11, 31)");
@@ -54,7 +55,8 @@ public final class ExceptionsTest {
     }
 
     private static void undoAndSnapshotsAreRefused() {
-        Script.holds("A call that throws an exception changes nothing: undo()", "play(3); keep(0); gate(1); undo(); undo()",
+        Script.holds("A call that throws an exception changes nothing: undo()",
+                "play(3); keep(0); gate(1); undo(); undo()",
                 "type g1;d5", "undo() ! state; goBack(0) = 3; undo() = 0; undo() ! state; execute() = 2");
         refused("argument", "keep(-1)", "keep(2)", "goBack(-1)", "goBack(2)");
         refused("state", "goBack(1)");

@@ -76,9 +76,16 @@ public final class FaceTest {
             Checks.dueText("the constructor", constructor.toString(), "public MarbleGates()");
         }
         for (Field field : MarbleGates.class.getDeclaredFields()) {
-            int due = field.getName().equals("NONE") ? Modifier.PUBLIC | Modifier.STATIC | Modifier.FINAL
-                    : field.getModifiers() & Modifier.STATIC | Modifier.PRIVATE | Modifier.FINAL;
-            Checks.due("the field " + field.getName(), field.getModifiers(), due);
+            int modifiers = field.getModifiers();
+            if (field.getName().equals("NONE")) {
+                Checks.due("NONE", modifiers, Modifier.PUBLIC | Modifier.STATIC | Modifier.FINAL);
+                Checks.dueText("NONE", field.getType().getName(), "int");
+                continue;
+            }
+            Checks.due("the field " + field.getName() + " is private", modifiers & Modifier.PRIVATE, Modifier.PRIVATE);
+            if (Modifier.isStatic(modifiers)) {
+                Checks.due("the field " + field.getName() + " is final", modifiers & Modifier.FINAL, Modifier.FINAL);
+            }
         }
         for (Class<?> inside : MarbleGates.class.getDeclaredClasses()) {
             Checks.due(inside + " is static and not open",
@@ -91,14 +98,16 @@ public final class FaceTest {
         for (String method : FACE) {
             face += method.substring(method.indexOf(' ') + 1, method.indexOf('(')) + " ";
         }
+        dueApart(MarbleGates.class, face);
         for (Class<?> inside : MarbleGates.class.getDeclaredClasses()) {
-            for (Method method : inside.getDeclaredMethods()) {
-                Checks.due(inside + "." + method.getName(), face.indexOf(" " + method.getName() + " "), -1);
-            }
+            dueApart(inside, face);
         }
-        for (Method method : MarbleGates.class.getDeclaredMethods()) {
+    }
+
+    private static void dueApart(Class<?> type, String face) {
+        for (Method method : type.getDeclaredMethods()) {
             if (Modifier.isPrivate(method.getModifiers())) {
-                Checks.due(method.getName(), face.indexOf(" " + method.getName() + " "), -1);
+                Checks.due(type + "." + method.getName(), face.indexOf(" " + method.getName() + " "), -1);
             }
         }
     }

@@ -4,63 +4,63 @@ import java.nio.file.Path;
 import java.util.regex.Matcher;
 import java.util.regex.Pattern;
 
-/** What of ../shared/LANGUAGE.md can be seen in the text of the program. */
+/** What of ../shared/LANGUAGE.md can be seen in the text of the program; the face of rule 1 is in FaceTest. */
 public final class LanguageTest {
-    /** A rule's number, and words or signs that it leaves out. */
+    /** A rule's number, and what it leaves out. */
     private static final String[][] LEFT_OUT = {
-        {"2", "->"}, {"2", "::"},
-        {"3", "\\bMath\\.(sqrt|abs|floor|ceil|pow|random)\\b"},
-        {"4", "\\bimport\\b"}, {"4", "\\bpackage\\b"}, {"4", "\\w+Exact\\b"}, {"4", "\\bSystem\\.(?!arraycopy\\b)"},
-        {"4", "\\bInteger\\.(?!bitCount\\b)"}, {"4", "\\bMath\\.(?!max\\b|min\\b)"},
-        {"6", "\\bfinally\\b"}, {"6", "\\bsynchronized\\b"}, {"6", "\\bassert\\b"}, {"6", "\\bcatch\\b"},
-        {"6", "throw (?!new (IllegalArgument|IllegalState|IndexOutOfBounds)Exception\\(\"[^\"]*\"\\);)"},
-        {"6", "\\b(equals|hashCode|toString)\\b"},
-        {"10", "\" *\\+"}, {"10", "\\+ *\""}};
+        {"2, lambdas", "(?m)^(?!.*\\b(case|default)\\b).*->"},
+        {"2, method references", "::"},
+        {"3, Math on doubles", "\\bMath\\.(sqrt|floor|ceil|pow|random)\\b"},
+        {"4, packages", "\\bpackage\\b"},
+        {"4, imports", "\\bimport (?!java\\.util\\.(ArrayList|List|Arrays|Iterator|NoSuchElementException);)"},
+        {"4, names that end in Exact", "\\w+Exact\\b"},
+        {"4, System", "\\bSystem\\.(?!arraycopy\\b)"},
+        {"4, texts of numbers", "\\b(Integer|Long)\\.(parse\\w*|valueOf|to\\w*String|decode)\\b"},
+        {"4, constants of other signs", "\"[^\"\\n]*[^\\x01-\\x7f\\n][^\"\\n]*\""},
+        {"6, words", "\\b(finally|synchronized|assert|hashCode)\\b"},
+        {"6, exceptions",
+        "\\bthrow (?!new (IllegalState|IllegalArgument|IndexOutOfBounds|Arithmetic|UnsupportedOperation"
+            + "|NoSuchElement|Runtime)Exception\\((\"[^\"]*\")?\\);)"},
+        {"6, catching what the machine throws", "\\bcatch \\(\\s*(final )?(Throwable|Exception|RuntimeException"
+            + "|NullPointerException|ArithmeticException|ClassCastException|ArrayStoreException"
+            + "|ArrayIndexOutOfBoundsException|NegativeArraySizeException)\\b"},
+        {"10, texts joined by +", "\" *\\+(?!\\+)|[^+]\\+ *\""}};
+
+    /** Rule 11's "some sixty" lines and "some twelve" classes. */
+    private static final int LINE_LIMIT = 65;
+    private static final int CLASS_LIMIT = 13;
 
     public static void main(String[] args) throws IOException {
         String program = Files.readString(Path.of("src/main/java/MarbleGates.java"));
-        Checks.due("signs beyond 126", firstPlace(program, "[^\\n -~]"), -1);
         String code = program.replaceAll("(?s)/\\*.*?\\*/", "").replaceAll("//[^\\n]*", "");
         for (String[] rule : LEFT_OUT) {
-            Checks.due("rule " + rule[0] + ": " + rule[1], firstPlace(code, rule[1]), -1);
+            Checks.dueText("rule " + rule[0], firstOf(code, rule[1]), "");
         }
-        arraysStandBehindTests(code);
         constructorsThrowNothing(code);
-        methodsStayShort(program);
+        methodsStayShort(code);
+        int classes = code.split("\\b(class|record|enum|interface) [A-Z]\\w*[^;{]*\\{", -1).length - 1;
+        Checks.due("rule 11: classes", Math.max(classes, CLASS_LIMIT), CLASS_LIMIT);
         Checks.end("LanguageTest");
     }
 
-    private static int firstPlace(String text, String pattern) {
+    private static String firstOf(String text, String pattern) {
         Matcher matcher = Pattern.compile(pattern).matcher(text);
-        return matcher.find() ? matcher.start() : -1;
-    }
-
-    /** Arrays are used in the two classes alone that test each index. */
-    private static void arraysStandBehindTests(String code) {
-        Matcher matcher = Pattern.compile("(\\w*)\\[[^\\]]").matcher(code);
-        while (matcher.find()) {
-            String name = matcher.group(1);
-            Checks.dueText("an array " + name, name.matches("cells|places|int|Run") ? "tested" : name, "tested");
-        }
+        return matcher.find() ? matcher.group() : "";
     }
 
     private static void constructorsThrowNothing(String code) {
-        Matcher matcher = Pattern.compile("(?m)^ {4,8}(?:public )?[A-Z]\\w*\\([^)]*\\) \\{(.*?)^ {4,8}\\}",
-                Pattern.DOTALL | Pattern.MULTILINE).matcher(code);
-        int found = 0;
+        Matcher matcher = Pattern.compile("(?ms)^( {4,8})(?:public |private )?[A-Z]\\w*\\([^)]*\\) \\{(.*?)^\\1\\}")
+                .matcher(code);
         while (matcher.find()) {
-            found++;
-            Checks.due("a throw in a constructor", matcher.group(1).indexOf("throw"), -1);
+            Checks.due("rule 6: a throw in a constructor", matcher.group(2).indexOf("throw"), -1);
         }
-        Checks.due("constructors", found, 6);
     }
 
-    private static void methodsStayShort(String program) {
-        int length = 0;
-        for (String line : program.split("\n")) {
-            length = line.isBlank() ? 0 : length + 1;
-            Checks.due("a stretch without a blank line", Math.max(length, 60), 60);
+    private static void methodsStayShort(String code) {
+        Matcher matcher = Pattern.compile("(?ms)^( {4,8})[^\\s}][^\\n;=]*\\([^\\n;]*\\{$(.*?)^\\1\\}").matcher(code);
+        while (matcher.find()) {
+            int lines = matcher.group(2).split("\n", -1).length;
+            Checks.due("rule 11: lines of a method", Math.max(lines, LINE_LIMIT), LINE_LIMIT);
         }
-        Checks.due("classes", Math.max(12, program.split("\\bclass [A-Z]\\w* \\{", -1).length - 1), 12);
     }
 }

@@ -1,7 +1,8 @@
 /** Long runs of calls, ordinary and wrong ones mixed, each answered as the model answers it. */
 public final class ModelTest {
     /** How often each call is chosen; the dear ones seldom. */
-    private static final int[] WEIGHTS = {6, 12, 3, 6, 4, 8, 10, 3, 0, 1, 4, 6, 4, 2, 2, 12, 12, 8, 10, 8, 6, 8, 3, 6, 5,
+    private static final int[] WEIGHTS = {6, 12, 3, 6, 4, 8, 10, 3, 0, 1, 4, 6, 4, 2, 2, 12, 12, 8, 10, 8, 6, 8, 3, 6,
+    5,
         4, 3, 2, 4};
     private static final String SIGNS = "gedtfLRb;0123456789g1;d5;t9;e0L";
 
@@ -98,7 +99,8 @@ public final class ModelTest {
     }
 
     private int target(int gate) {
-        return below(3) == 0 ? mostly(20, 24) : below(4) == 0 ? gate() : gate >= 0 && gate < 11 ? gate + 1 + below(2) : 20;
+        return below(3) == 0 ? mostly(20, 24) : below(4) == 0 ? gate() : gate >= 0 && gate < 11 ? gate + 1
+        + below(2) : 20;
     }
 
     private int[] arguments(int call) {

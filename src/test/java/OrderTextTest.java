@@ -1,3 +1,5 @@
+import java.util.List;
+
 /** Promises 10 to 13: append, clearBuffer, firstError, execute; and "Order text" in "Terms". */
 public final class OrderTextTest {
     private static final String DIGITS = "0123456789";
@@ -11,6 +13,7 @@ public final class OrderTextTest {
         incompleteTextsHaveNoError();
         ordersAreExecuted();
         eachNumberIsExecuted();
+        anOrderDoesWhatItsMethodDoes();
         executionStopsWhereAMethodWouldThrow();
         executionClearsAndStops();
         incompleteTextsAreRefused();
@@ -73,7 +76,8 @@ public final class OrderTextTest {
 
     private static void errorAt(String sentence, int index, String... texts) {
         for (String text : texts) {
-            Script.holds("12: " + sentence, "type " + text, "firstError() = " + index + "; count(11) = " + text.length());
+            Script.holds("12: " + sentence, "type " + text, "firstError() = " + index + "; count(11) = "
+                    + text.length());
         }
     }
 
@@ -133,11 +137,13 @@ public final class OrderTextTest {
     private static void eachNumberIsExecuted() {
         Script.holds("\"g\" and a pitch from 0 to 30", "type g0;g9;g10;g30", "execute() = 4; gateOf(0, 1) = 0",
                 "gateOf(1, 1) = 9; gateOf(2, 1) = 10; gateOf(3, 1) = 30");
-        Script.holds("\"e\", a gate from 0 to 11, \"L\" or \"R\" ..., and then either a gate from 0 to 11", "12 * gate(1)",
+        Script.holds("\"e\", a gate from 0 to 11, \"L\" or \"R\" ..., and then either a gate from 0 to 11",
+                "12 * gate(1)",
                 "type e0L1;e0R11;e10L11;e8R10;e9L10", "execute() = 5; gateOf(0, 2) = 1; gateOf(0, 3) = 11",
                 "gateOf(10, 2) = 11; gateOf(10, 3) = 20; gateOf(8, 3) = 10; gateOf(9, 2) = 10");
         Script.holds("or \"b\" and a bin from 0 to 4", "12 * gate(1); lead(11, 0, 21)",
-                "type e0Lb0;e0Rb4;e11Lb0;e11Rb4;e10Lb1;e9Rb2;e8Lb3", "execute() = 7; gateOf(0, 2) = 20; gateOf(0, 3) = 24",
+                "type e0Lb0;e0Rb4;e11Lb0;e11Rb4;e10Lb1;e9Rb2;e8Lb3",
+                "execute() = 7; gateOf(0, 2) = 20; gateOf(0, 3) = 24",
                 "gateOf(11, 2) = 20; gateOf(11, 3) = 24; gateOf(10, 2) = 21; gateOf(9, 3) = 22; gateOf(8, 2) = 23");
         Script.holds("\"d\" and a number from 1 to 40", "type d1", "execute() = 1; count(4) = 1", "type d40",
                 "execute() = 1; count(4) = 41", "type d9;d10", "execute() = 2; count(4) = 60");
@@ -147,8 +153,23 @@ public final class OrderTextTest {
                 "gateOf(0, 0) = 1; gateOf(11, 0) = 1; gateOf(10, 0) = 1; gateOf(9, 0) = 1; gateOf(1, 0) = 0");
     }
 
+    private static void anOrderDoesWhatItsMethodDoes() {
+        String gates = "11 * gate(5); lead(0, 0, 1); lead(1, 0, 2); drop(9); play(3)";
+        String[][] pairs = {{"g0", "gate(0)"}, {"g10", "gate(10)"}, {"g30", "gate(30)"}, {"e0L1", "lead(0, 0, 1)"},
+            {"e9R10", "lead(9, 1, 10)"}, {"e10Rb4", "lead(10, 1, 24)"}, {"e2Lb0", "lead(2, 0, 20)"}, {"d1", "drop(1)"},
+            {"d9", "drop(9)"}, {"d40", "drop(40)"}, {"t1", "play(1)"}, {"t9", "play(9)"}, {"t10", "play(10)"},
+            {"t50", "play(50)"}, {"f0", "flip(0)"}, {"f9", "flip(9)"}, {"f10", "flip(10)"}};
+        for (String[] pair : pairs) {
+            Script.endAlike("An order is: ... (as its method)", gates, List.of("type " + pair[0], "execute() = 1"),
+                    List.of(pair[1]));
+            Script.endAlike("An order is: ... (as its method), behind another", gates,
+                    List.of("type e1Rb3;d2;" + pair[0], "execute() = 3"), List.of("lead(1, 1, 23); drop(2)", pair[1]));
+        }
+    }
+
     private static void stops(String before, String text, int executed) {
-        Script.holds("13: up to the first one whose method would throw an exception", before, "type " + text + ";t50;t50",
+        Script.holds("13: up to the first one whose method would throw an exception", before, "type " + text
+                + ";t50;t50",
                 "execute() = " + executed + "; count(11) = 0; count(0) = 0");
         Script.holds("13: without the one whose method would throw", before, "type t1;" + text, "execute() = "
                 + (executed + 1) + "; count(0) = 1");
@@ -179,7 +200,8 @@ public final class OrderTextTest {
 
     private static void executionClearsAndStops() {
         Script.holds("13: up to the first one: a later one that could be executed is left out",
-                "4 * drop(40); drop(39)", "type d2;d1;g1", "execute() = 0; count(4) = 199; count(1) = 0; count(11) = 0");
+                "4 * drop(40); drop(39)", "type d2;d1;g1",
+                "execute() = 0; count(4) = 199; count(1) = 0; count(11) = 0");
         Script.holds("13: an order counts with what the orders before it did",
                 "type f0;g1", "execute() = 0; count(1) = 0", "type g1;f0;g2;e0L1;d1;t2", "execute() = 6; count(0) = 2",
                 "gateOf(0, 7) = 1; gateOf(0, 5) = 1; count(7) = 1");
@@ -188,7 +210,8 @@ public final class OrderTextTest {
     }
 
     private static void incompleteTextsAreRefused() {
-        String[] texts = {"", "g", "g1;", "e", "e1", "e11", "e1L", "e1Lb", "d", "t", "f", "t5;g", "x", "g31", "g1;;", "e12",
+        String[] texts = {"", "g", "g1;", "e", "e1", "e11", "e1L", "e1Lb", "d", "t", "f", "t5;g", "x", "g31", "g1;;",
+                "e12",
             "g1;e0L", "d1;e0", ";g1", "g1;x", "d0", "g00", "g1;".repeat(20), "t1;".repeat(19) + "t"};
         for (String text : texts) {
             Script.holds("13: Throws `IllegalArgumentException` if the buffer is not a complete order text", "gate(4)",
@@ -200,7 +223,8 @@ public final class OrderTextTest {
         Script.isUndoable("type g1;g2;d3;t9", "execute()");
         Script.isUndoable("gate(1); drop(3)", "type f0;t9;g1;e0Lb4;d40;t50", "execute()");
         Script.isUndoable("gate(1); drop(3)", "type f1", "execute()");
-        Script.holds("13: Undoable, as one call: undo leaves the buffer", "type g1;g2;d3;t9", "execute() = 4; count(10) = 1",
+        Script.holds("13: Undoable, as one call: undo leaves the buffer", "type g1;g2;d3;t9",
+                "execute() = 4; count(10) = 1",
                 "type f0", "undo() = 0; count(1) = 0; count(11) = 2; execute() = 0; count(10) = 1; count(11) = 0");
     }
 }

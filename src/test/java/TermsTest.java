@@ -112,11 +112,8 @@ public final class TermsTest {
                 "3 * gate(1); lead(0, 0, 1); lead(1, 0, 2); drop(1); play(1) = 0; ball(0, 0) = 0; play(1) = 1",
                 "ball(0, 0) = 1; ball(0, 2) = 1; play(1) = 1; ball(0, 0) = 2; ball(0, 2) = 2; play(1) = 1",
                 "ball(0, 0) = NONE; bin(0, 0) = 1");
-        StringBuilder chain = new StringBuilder("12 * gate(1)");
-        for (int gate = 0; gate < 11; gate++) {
-            chain.append("; lead(" + gate + ", 0, " + (gate + 1) + "); lead(" + gate + ", 1, " + (gate + 1) + ")");
-        }
-        Script.holds("Each ball that is in the run: at most one at each of 12 gates of a chain", chain.toString(),
+        Script.holds("Each ball that is in the run: at most one at each of 12 gates of a chain",
+                Script.straightChain(12),
                 "drop(40); play(12); count(3) = 12; ball(0, 0) = 11; ball(11, 0) = 0; ball(12, 0) = NONE; count(9) = 66",
                 "play(1) = 12; count(3) = 12; ball(0, 1) = 2; bin(0, 0) = 1; note(0, 1) = 0; note(11, 1) = 11");
     }

@@ -12,7 +12,8 @@ public final class UndoTest {
 
     private static void theStateIsEverythingElse() {
         String sentence = "The state consists of everything except the buffer, the saved states and the snapshots.";
-        Script.holds(sentence + " The buffer", "gate(1); keep(0)", "type f0", "undo() = 0; count(11) = 2; goBack(0) = 0",
+        Script.holds(sentence + " The buffer", "gate(1); keep(0)", "type f0",
+                "undo() = 0; count(11) = 2; goBack(0) = 0",
                 "count(11) = 2; clearBuffer() = 2; undo() = 0; count(11) = 0; goBack(0); count(11) = 0; firstError() = 0");
         Script.holds(sentence + " The saved states", "gate(1); keep(0); tune(0, 2); tune(0, 3); goBack(0) = 0",
                 "count(10) = 4; gateOf(0, 1) = 1; undo() = 3; gateOf(0, 1) = 3; undo() = 2; gateOf(0, 1) = 2");
@@ -20,6 +21,11 @@ public final class UndoTest {
                 "count(1) = 1; play(3); keep(1) = 3; goBack(0) = 0; goBack(1) = 3; undo() = 3; count(0) = 0");
         String rich = "3 * gate(5); lead(0, 0, 1); lead(0, 1, 2); lead(1, 0, 2); lead(1, 1, 21); lead(2, 1, 24)"
                 + "; set(0, 2); set(1, 3); drop(40); drop(40); flip(1); play(50); tune(2, 9); play(43)";
+        Script.isUndoable("3 * gate(5); lead(0, 0, 1); lead(1, 0, 2); drop(1); play(2)", "play(1)");
+        String twoInTheRun = "3 * gate(5); lead(0, 0, 1); lead(0, 1, 1); lead(1, 0, 2); drop(2); play(3)";
+        Script.isUndoable(twoInTheRun, "play(1)");
+        Script.isUndoable(twoInTheRun, "play(50)");
+        Script.isUndoable("keep(0)", twoInTheRun, "goBack(0)");
         Script.isUndoable(rich, "gate(30)");
         Script.isUndoable(rich, "lead(0, 0, 2)");
         Script.isUndoable(rich, "tune(0, 0)");
@@ -56,11 +62,13 @@ public final class UndoTest {
                 "tune(0, 6); count(10) = 6; undo() = 5; gateOf(0, 1) = 5; undo() = 4; gateOf(0, 1) = 4; undo() = 3",
                 "gateOf(0, 1) = 3; undo() = 2; gateOf(0, 1) = 2; undo() = 1; gateOf(0, 1) = 1; undo() = 0",
                 "gateOf(0, 1) = 0; undo() ! state; count(1) = 1");
-        Script.holds(sentence + " Twice as many and one more", "gate(0); tune(0, 1); tune(0, 2); tune(0, 3); tune(0, 4)",
+        Script.holds(sentence + " Twice as many and one more",
+                "gate(0); tune(0, 1); tune(0, 2); tune(0, 3); tune(0, 4)",
                 "tune(0, 5); tune(0, 6); tune(0, 7); tune(0, 8); tune(0, 9); tune(0, 10); tune(0, 11); tune(0, 12)",
                 "count(10) = 6; undo() = 5; gateOf(0, 1) = 11; 4 * undo(); gateOf(0, 1) = 7; undo() = 0",
                 "gateOf(0, 1) = 6; undo() ! state");
-        Script.holds(sentence + " Also after undo", "gate(0); tune(0, 1); tune(0, 2); tune(0, 3); tune(0, 4); tune(0, 5)",
+        Script.holds(sentence + " Also after undo",
+                "gate(0); tune(0, 1); tune(0, 2); tune(0, 3); tune(0, 4); tune(0, 5)",
                 "tune(0, 6); tune(0, 7); undo() = 5; undo() = 4; gateOf(0, 1) = 5; tune(0, 8) = 5; tune(0, 9) = 8",
                 "count(10) = 6; tune(0, 10) = 9; count(10) = 6; undo() = 5; gateOf(0, 1) = 9; undo() = 4",
                 "gateOf(0, 1) = 8; undo() = 3; gateOf(0, 1) = 5; undo() = 2; gateOf(0, 1) = 4; undo() = 1",
@@ -100,7 +108,8 @@ public final class UndoTest {
                 + " at first.", "gate(1); goBack(0) ! state; goBack(1) ! state; keep(1) = 0; goBack(0) ! state",
                 "goBack(1) = 0; keep(0) = 0; goBack(0) = 0");
         Script.holds("16: the other slot stays empty", "gate(1); keep(0); goBack(1) ! state; goBack(0) = 0");
-        Script.holds("16: the one that its throws clause lists first is thrown", "goBack(-1) ! argument; goBack(2) ! argument");
+        Script.holds("16: the one that its throws clause lists first is thrown",
+                "goBack(-1) ! argument; goBack(2) ! argument");
         Script.isUndoable("gate(1); keep(1); drop(9); play(7)", "goBack(1)");
     }
 }

@@ -6,6 +6,24 @@ final class Script {
     private Script() {
     }
 
+    /** Gates of the pitches 19, 20 and so on; the left exit of each leads to the next one, all others to the bin 0. */
+    static String chain(int size) {
+        StringBuilder rows = new StringBuilder("gate(19)");
+        for (int gate = 1; gate < size; gate++) {
+            rows.append("; gate(" + (19 + gate) + "); lead(" + (gate - 1) + ", 0, " + gate + ")");
+        }
+        return rows.toString();
+    }
+
+    /** The same, but for the right exits: they lead to the next gate too. */
+    static String straightChain(int size) {
+        StringBuilder rows = new StringBuilder(chain(size));
+        for (int gate = 1; gate < size; gate++) {
+            rows.append("; lead(" + (gate - 1) + ", 1, " + gate + ")");
+        }
+        return rows.toString();
+    }
+
     /** Each answer is as due, the model's too; a call that is refused changes nothing. */
     static void holds(String sentence, String... texts) {
         List<Row> rows = Row.parseAll(texts);
@@ -49,6 +67,15 @@ final class Script {
         after.addAll(Row.parse("undo()"));
         Checks.due("Undoable: " + call + ": left after undo", saved(after), Math.min(saved, 5));
         Checks.dueText("Undoable: " + call + ": the state before", Views.state(after), Views.state(before));
+    }
+
+    /** Both runs of calls end in the same state. */
+    static void endAlike(String sentence, String before, List<String> some, List<String> others) {
+        List<Row> first = Row.parse(before);
+        List<Row> second = Row.parse(before);
+        some.forEach(text -> first.addAll(Row.parse(text)));
+        others.forEach(text -> second.addAll(Row.parse(text)));
+        Checks.dueText(sentence + " | " + some + " as " + others, Views.state(first), Views.state(second));
     }
 
     private static int saved(List<Row> rows) {
